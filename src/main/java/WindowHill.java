@@ -1237,11 +1237,11 @@ public final class WindowHill {
         }
 
         private int bornNow() {
-            return hasRule(mayor) ? bornBy[mayor] : 0;
+            return mayor >= 0 && mayor < rules ? bornBy[mayor] : 0;
         }
 
         private int staysNow() {
-            return hasRule(mayor) ? staysBy[mayor] : 0;
+            return mayor >= 0 && mayor < rules ? staysBy[mayor] : 0;
         }
 
         private int nextOf(int lit) {
@@ -1276,7 +1276,7 @@ public final class WindowHill {
         }
 
         private boolean isStill() {
-            return nextOf(picture) == picture;
+            return hill.step(picture, bornNow(), staysNow()) == picture;
         }
 
         /** Nights go by; whole rounds are left out, for they burn what the first burnt and show nothing new. */
@@ -1632,8 +1632,10 @@ public final class WindowHill {
     private static final class YearReader {
         private static boolean takeYear(Tokens t, Town town, Year year) {
             for (int entry = 0; entry <= Year.MOST_ENTRIES && !t.isEnd(); entry++) {
-                boolean taken = t.isWord(Tokens.END) ? takeEnd(t, year) : takeStep(t, town, year);
-                if (!taken) {
+                int at = year.entries;
+                boolean taken = t.isWord(Tokens.END) ? takeEnd(t, year)
+                    : takeStepWord(t, year) && takeRest(t, town, year, at);
+                if (!taken || !t.takeSign(';')) {
                     return false;
                 }
             }
@@ -1650,16 +1652,15 @@ public final class WindowHill {
             year.partners[open] = end;
             year.partners[end] = open;
             t.advance();
-            return t.takeSign(';');
+            return true;
         }
 
-        private static boolean takeStep(Tokens t, Town town, Year year) {
+        private static boolean takeStepWord(Tokens t, Year year) {
             int word = t.wordNumber();
             if (!isStep(word)) {
                 return t.fail(Tokens.MISPLACED);
             }
-            int entry = year.entries;
-            if (year.steps >= Year.MOST_STEPS || entry >= Year.MOST_ENTRIES) {
+            if (year.steps >= Year.MOST_STEPS || year.entries >= Year.MOST_ENTRIES) {
                 return t.fail(Tokens.ONE_TOO_MANY);
             }
             if (Year.isBlock(word) && year.countOpen() >= Year.MOST_DEPTH) {
@@ -1668,7 +1669,7 @@ public final class WindowHill {
             year.add(word);
             year.steps++;
             t.advance();
-            return takeRest(t, town, year, entry) && t.takeSign(';');
+            return true;
         }
 
         private static boolean isStep(int word) {
@@ -1696,7 +1697,11 @@ public final class WindowHill {
         }
 
         private static boolean takePlace(Tokens t, Town town, Year year, int entry) {
-            if (!takeFirst(t, year, entry, 0, town.hill.wide - 1) || !t.takeNumber(0, town.hill.rows - 1)) {
+            if (!t.takeNumber(0, town.hill.wide - 1)) {
+                return false;
+            }
+            year.firsts[entry] = t.taken;
+            if (!t.takeNumber(0, town.hill.rows - 1)) {
                 return false;
             }
             year.seconds[entry] = t.taken;
@@ -1880,52 +1885,54 @@ public final class WindowHill {
         private final int[] ways = new int[(Hill.MOST_ROWS + 1) * PAIRS];
         /** Three rows alone, by which the middle one is looked at. */
         private final Hill strip = new Hill();
-        private Town town;
+        /** By rows, and one behind the last: which lamps are not STUCK, which are always lit, which are to be lit. */
+        private final int[] freeIn = new int[Hill.MOST_ROWS + 1];
+        private final int[] alwaysIn = new int[Hill.MOST_ROWS + 1];
+        private final int[] wantedIn = new int[Hill.MOST_ROWS + 1];
+        private int rows;
         private int born;
         private int stays;
         private boolean toItself;
 
         private int countWays(Town asked, boolean itself) {
-            town = asked;
             toItself = itself;
-            layStrip();
+            layRows(asked);
             born = asked.bornNow();
             stays = asked.staysNow();
             Arrays.fill(ways, 0);
-            int free = freeOf(0);
-            int choice = free;
+            int choice = freeIn[0];
             for (int chosen = 0; chosen < 32; chosen++) {
-                ways[choice | alwaysOf(0)] = 1;
+                ways[choice | alwaysIn[0]] = 1;
                 if (choice == 0) {
                     break;
                 }
-                choice = choice - 1 & free;
+                choice = choice - 1 & freeIn[0];
             }
-            for (int row = 0; row < asked.hill.rows; row++) {
+            for (int row = 0; row < rows; row++) {
                 chooseBelow(row);
             }
             int sum = 0;
-            int last = asked.hill.rows * PAIRS;
+            int last = rows * PAIRS;
             for (int pair = last; pair < last + PAIRS; pair++) {
                 sum += ways[pair];
             }
             return sum;
         }
 
-        private void layStrip() {
-            strip.start(town.hill.wide, town.hill.joined);
+        /** Behind the last row there is one that is dark: rowOf answers 0 for it. */
+        private void layRows(Town asked) {
+            Hill hill = asked.hill;
+            rows = Math.min(hill.rows, Hill.MOST_ROWS);
+            for (int row = 0; row <= rows; row++) {
+                freeIn[row] = hill.rowOf(hill.free, row);
+                alwaysIn[row] = hill.rowOf(hill.always, row);
+                wantedIn[row] = hill.rowOf(asked.picture, row);
+            }
+            strip.start(hill.wide, hill.joined);
             for (int row = 0; row < 3; row++) {
                 strip.addRow();
             }
             strip.free = strip.places;
-        }
-
-        private int freeOf(int row) {
-            return town.hill.rowOf(town.hill.free, row);
-        }
-
-        private int alwaysOf(int row) {
-            return town.hill.rowOf(town.hill.always, row);
         }
 
         private void chooseBelow(int row) {
@@ -1938,14 +1945,12 @@ public final class WindowHill {
             }
         }
 
-        /** Below the last row there is one that is dark: rowOf answers 0 for it. */
         private void chooseBelowPair(int row, int above, int here, int many) {
             int level = (row + 1) * PAIRS + here * 32;
-            int free = freeOf(row + 1);
-            int stuck = alwaysOf(row + 1);
+            int free = freeIn[row + 1];
             int choice = free;
             for (int chosen = 0; chosen < 32; chosen++) {
-                int below = choice | stuck;
+                int below = choice | alwaysIn[row + 1];
                 if (isRight(row, above, here, below)) {
                     ways[level + below] += many;
                 }
@@ -1959,17 +1964,17 @@ public final class WindowHill {
         /** Whether a row between two others becomes in a night what it should. */
         private boolean isRight(int row, int above, int here, int below) {
             int lit = above | here << strip.wide | below << 2 * strip.wide;
-            int then = strip.rowOf(strip.step(lit, born, stays), 1) & freeOf(row) | alwaysOf(row);
-            return then == (toItself ? here : town.hill.rowOf(town.picture, row));
+            int then = strip.rowOf(strip.step(lit, born, stays), 1) & freeIn[row] | alwaysIn[row];
+            return then == (toItself ? here : wantedIn[row]);
         }
 
         /** Of what was counted latest (there is one) the least: its last rows count most, so they are chosen first. */
         private int leastFound() {
             int below = 0;
-            int here = leastAbove(town.hill.rows, 0, -1);
+            int here = leastAbove(rows, 0, -1);
             int found = 0;
-            for (int row = town.hill.rows - 1; row >= 0; row--) {
-                found |= here << row * town.hill.wide;
+            for (int row = rows - 1; row >= 0; row--) {
+                found |= here << row * strip.wide;
                 int above = row > 0 ? leastAbove(row, here, below) : 0;
                 below = here;
                 here = above;
