@@ -1945,27 +1945,32 @@ public final class WindowHill {
             }
         }
 
+        /** A lamp below decides of one lamp here alone, so each column has what it must be below, or may. */
         private void chooseBelowPair(int row, int above, int here, int many) {
-            int level = (row + 1) * PAIRS + here * 32;
             int free = freeIn[row + 1];
-            int choice = free;
+            int always = alwaysIn[row + 1];
+            int mustBeLit = wrongIn(row, above, here, 0);
+            int mustBeDark = wrongIn(row, above, here, strip.rowMask());
+            if (((mustBeLit | always) & mustBeDark) != 0 || (mustBeLit & ~(free | always)) != 0) {
+                return;
+            }
+            int first = (row + 1) * PAIRS + here * 32 + (mustBeLit | always);
+            int may = free & ~mustBeLit & ~mustBeDark;
+            int choice = may;
             for (int chosen = 0; chosen < 32; chosen++) {
-                int below = choice | alwaysIn[row + 1];
-                if (isRight(row, above, here, below)) {
-                    ways[level + below] += many;
-                }
+                ways[first + choice] += many;
                 if (choice == 0) {
                     break;
                 }
-                choice = choice - 1 & free;
+                choice = choice - 1 & may;
             }
         }
 
-        /** Whether a row between two others becomes in a night what it should. */
-        private boolean isRight(int row, int above, int here, int below) {
+        /** Which lamps of a row between two others become in a night what they should not. */
+        private int wrongIn(int row, int above, int here, int below) {
             int lit = above | here << strip.wide | below << 2 * strip.wide;
             int then = strip.rowOf(strip.step(lit, born, stays), 1) & freeIn[row] | alwaysIn[row];
-            return then == (toItself ? here : wantedIn[row]);
+            return then ^ (toItself ? here : wantedIn[row]);
         }
 
         /** Of what was counted latest (there is one) the least: its last rows count most, so they are chosen first. */
@@ -1986,7 +1991,7 @@ public final class WindowHill {
         private int leastAbove(int row, int here, int below) {
             for (int above = 0; above < 32; above++) {
                 boolean some = ways[row * PAIRS + above * 32 + here] != 0;
-                if (some && (below < 0 || isRight(row, above, here, below))) {
+                if (some && (below < 0 || wrongIn(row, above, here, below) == 0)) {
                     return above;
                 }
             }
@@ -2003,10 +2008,10 @@ public final class WindowHill {
         private int worstSpoilt;
         private int unlikeThen;
 
-        private void listLamps(Town town) {
+        private void listLamps(int set) {
             lampCount = 0;
             for (int place = 0; place < 30; place++) {
-                if ((town.hill.free & 1 << place) != 0) {
+                if ((set & 1 << place) != 0) {
                     lamps[lampCount] = 1 << place;
                     lampCount++;
                 }
@@ -2014,9 +2019,18 @@ public final class WindowHill {
         }
 
         private boolean findSignal(Town town, int target, int nights) {
-            listLamps(town);
+            listLamps(town.hill.free & near(town.hill, target, nights));
             return trySet(town, 0, target, nights) || tryOnes(town, target, nights)
                 || tryTwos(town, target, nights) || tryThrees(town, target, nights);
+        }
+
+        /** The PLACES so near that they count within so many nights: no fewest set has others. */
+        private static int near(Hill hill, int target, int nights) {
+            int near = target;
+            for (int night = 0; night < nights; night++) {
+                near |= hill.around(near);
+            }
+            return near;
         }
 
         private boolean trySet(Town town, int set, int target, int nights) {
@@ -2080,7 +2094,7 @@ public final class WindowHill {
         }
 
         private void findMend(Town town, int wanted) {
-            listLamps(town);
+            listLamps(town.hill.free);
             unlikeThen = 100;
             tryMend(town, 0, wanted);
             for (int a = 0; a < lampCount; a++) {
