@@ -1145,6 +1145,7 @@ public final class WindowHill {
         private final long[] ruleNames = new long[MOST_RULES];
         private final int[] bornBy = new int[MOST_RULES];
         private final int[] staysBy = new int[MOST_RULES];
+        /** Looked at while the text is read, not behind it: MARKS don't keep them. */
         private final long[] citizenNames = new long[MOST_CITIZENS];
         private final int[] least = new int[MOST_CITIZENS];
         private final int[] most = new int[MOST_CITIZENS];
@@ -1198,7 +1199,6 @@ public final class WindowHill {
             System.arraycopy(other.ruleNames, 0, ruleNames, 0, MOST_RULES);
             System.arraycopy(other.bornBy, 0, bornBy, 0, MOST_RULES);
             System.arraycopy(other.staysBy, 0, staysBy, 0, MOST_RULES);
-            System.arraycopy(other.citizenNames, 0, citizenNames, 0, MOST_CITIZENS);
             System.arraycopy(other.least, 0, least, 0, MOST_CITIZENS);
             System.arraycopy(other.most, 0, most, 0, MOST_CITIZENS);
             System.arraycopy(other.seen, 0, seen, 0, seen.length);
@@ -1450,9 +1450,6 @@ public final class WindowHill {
         private void add(int word) {
             if (entries < MOST_ENTRIES) {
                 words[entries] = word;
-                tests[entries] = 0;
-                firsts[entries] = 0;
-                seconds[entries] = 0;
                 partners[entries] = entries;
                 entries++;
             }

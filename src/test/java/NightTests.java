@@ -87,6 +87,9 @@ public final class NightTests {
         WindowHill h = traysOf(MIXED, 0, 1, 4);
         C.done(h, "paintRows", () -> h.paintRows(1), 3);
         C.due("picture", h.picture(), 1 + 8 + 32);
+        WindowHill zero = traysOf(MIXED, 2, 0, 0);
+        C.done(zero, "0", () -> zero.paintRows(1), 1);
+        C.due("picture", zero.picture(), 8);
         WindowHill more = traysOf(MIXED, 3, 31, 24, -1);
         C.done(more, "beyond the WIDTH, and a row more", () -> more.paintRows(1), 3);
         C.due("picture", more.picture(), 1 + 2 + 8);
@@ -264,6 +267,12 @@ public final class NightTests {
         round.night(1);
         C.asked(round, "LEAD", () -> round.again(0), 428);
         C.asked(round, "ROUND", () -> round.again(1), 1572);
+        WindowHill ring = bent(LARGE.replace("5;", "5 ring;"), 22, 24, 365804757);
+        ring.night(72);
+        C.refused(ring, 7, "a round of 2,275 from now on", () -> ring.again(1));
+        C.refused(ring, 7, "far", () -> ring.far(3));
+        WindowHill late = bent(LARGE, 26, 9, 348915637);
+        C.refused(late, 7, "a round of 96 from 7,753 on", () -> late.again(1));
     }
 
     private static void far() {

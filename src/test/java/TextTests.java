@@ -7,6 +7,7 @@ public final class TextTests {
     public static void main(String[] args) {
         C.test("10 town", TextTests::town);
         C.test("10 town is new", TextTests::townIsNew);
+        C.test("10 town after town", TextTests::townAfterTown);
         C.test("10 town, the largest", TextTests::largestTown);
         C.test("10 town, wrong n", TextTests::townWrong);
         C.test("10 town, blanks and lines", TextTests::blanks);
@@ -67,6 +68,36 @@ public final class TextTests {
         C.due("WIDE", h.told(0), 2);
     }
 
+    /** Nothing of the towns ahead may be left, of the latest or of others. */
+    private static void townAfterTown() {
+        String large = "wide 5 ring;row wwwww;row lllll;row xxxxx;row nnnnn;row ddddd;row lllll;rule a;rule b born 0;"
+            + "rule c born 0 1 2 stays 0 1 2;rule d stays 1;citizen e likes 30 to 30;citizen f likes 0 to 30;";
+        String[] small = {"wide 2;row ld;", "wide 2;row ld;rule z;", "wide 2;row ld;citizen a likes 2 to 2;rule z stays 0;"};
+        for (String text : small) {
+            WindowHill h = new WindowHill();
+            for (int k = 0; k < 4; k++) {
+                Checks.town(h, large);
+                h.mayor(2);
+                h.night(3);
+                Checks.year(h, "night 3;when lamp 4 5;mayor b;end;");
+            }
+            Checks.town(h, text);
+            C.due(text, Checks.all(h).equals(Checks.all(Checks.hill(text))), true);
+            C.due("YEAR", h.live(0), -1);
+            C.due("vote", h.vote(0), Checks.hill(text).vote(0));
+            C.due("elect", h.elect(), Checks.hill(text).elect());
+            C.due("night", h.night(1), text.contains("stays") ? 1 : 0);
+            C.due("as in a new one", Checks.all(h).equals(Checks.all(nightOf(text))), true);
+        }
+    }
+
+    private static WindowHill nightOf(String text) {
+        WindowHill h = Checks.hill(text);
+        h.elect();
+        h.night(1);
+        return h;
+    }
+
     private static void largestTown() {
         StringBuilder text = new StringBuilder("wide 5 ring;");
         for (int y = 0; y < 6; y++) {
@@ -88,6 +119,11 @@ public final class TextTests {
             text.append(' ');
         }
         C.due("900 bytes", Checks.hill(text.toString()).told(2), 30);
+        for (String tokens : new String[] {"1a", "a1", ";;", "a;", "1<", "??"}) {
+            WindowHill many = new WindowHill();
+            C.due("900 TOKENS", Checks.town(many, tokens.repeat(450)), -1);
+            C.due("900 TOKENS", many.fault(1), 0);
+        }
     }
 
     private static void townWrong() {
@@ -98,6 +134,14 @@ public final class TextTests {
         C.refused(h, 1, "more than there are", () -> h.town(21));
         C.refused(h, 1, "far more", () -> h.town(Integer.MAX_VALUE));
         C.due("the tape stays", h.town(n), 2);
+        Checks.feed(h, "wide 1;row dd;");
+        C.due("a WORD ends where the text does", h.town(12), -1);
+        C.due("kind", h.fault(0), 2);
+        C.due("place", h.fault(1), 12);
+        Checks.feed(h, "wide 12;");
+        C.due("a NUMBER ends where the text does", h.town(6), -1);
+        C.due("kind", h.fault(0), 2);
+        C.due("place", h.fault(1), 6);
         C.due("empty", h.town(0), -1);
         C.due("9", h.status(), 9);
         C.due("kind", h.fault(0), 2);

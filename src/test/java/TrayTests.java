@@ -42,6 +42,9 @@ public final class TrayTests {
         }
         C.refused(h, 1, "town 1", () -> h.town(1));
         C.done(h, "seen", h::rulesLeft, 1024);
+        C.done(h, "the house", () -> h.lamp(0, 0, 1), 0);
+        C.done(h, "turn", () -> h.turn(0, 0), 1);
+        C.done(h, "picture", h::picture, 1);
         C.due("NONE", WindowHill.NONE, -1);
     }
 

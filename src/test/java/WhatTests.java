@@ -167,6 +167,8 @@ public final class WhatTests {
         C.asked(h, "30", () -> h.spoils(0, 0, 30), 9);
         h.paint(511);
         C.asked(h, "nothing", () -> h.spoils(0, 0, 1), 0);
+        C.asked(h, "the lit one itself", () -> h.spoils(0, 0, 0), 1);
+        C.asked(h, "the first lit one", () -> h.worst(0, 1), 1);
         WindowHill odd = Checks.hill("wide 3;row dxn;row wdd;");
         int[][] wrong = {{1, -1, 0, 0}, {1, 3, 0, 0}, {1, 0, 2, 0}, {1, 0, -1, 0}, {1, 0, 0, -1}, {1, 0, 0, 31},
             {1, 2, 0, 31}, {7, 1, 0, 0}, {7, 2, 0, 0}, {7, 0, 1, 30}};
@@ -214,6 +216,11 @@ public final class WhatTests {
         WindowHill two = Checks.hill("wide 2;row dd;" + SPREAD);
         mend(two, 3, 0, 1);
         mend(two, 3 + 4 + 1024, 0, 1);
+        WindowHill stays = Checks.hill("wide 4;row lldd;rule a stays 0 1 2 3 4;");
+        mend(stays, 3, 0, 0);
+        mend(stays, 1, 0, 2);
+        mend(stays, 6, 0, 1 + 4);
+        mend(stays, 12, 2, 1 + 2);
         WindowHill odd = Checks.hill("wide 3;row xnw;row ddd;");
         mend(odd, 7, 2, 0);
         mend(odd, 63, 5, 0);
@@ -438,6 +445,11 @@ public final class WhatTests {
         for (int[] d : due) {
             C.asked(h, "heap " + d[0] + " " + d[1], () -> h.heap(d[0], d[1]), d[2]);
         }
+        WindowHill ring = Checks.hill("wide 4 ring;row lddl;row dddl;");
+        C.asked(ring, "by the RING, to the left", () -> ring.heap(0, 0), 3);
+        C.asked(ring, "by the RING, to the right", () -> ring.heap(3, 1), 3);
+        WindowHill flat = Checks.hill("wide 4;row lddl;row dddl;");
+        C.asked(flat, "without one", () -> flat.heap(0, 0), 1);
         int[][] wrong = {{1, -1, 0}, {1, 5, 0}, {1, 0, -1}, {1, 0, 3}, {7, 1, 1}};
         for (int[] w : wrong) {
             C.refused(h, w[0], "heap", () -> h.heap(w[1], w[2]));

@@ -231,6 +231,11 @@ public final class YearTests {
         meanOf(h, 1, 1, 0, 1);
         meanOf(h, 0, 2, 1, 2);
         meanOf(h, 0, 3, 2, 3);
+        // first draws by 16 of seeds 3, 4: 1, 8
+        WindowHill higher = Checks.hill("wide 1;row l;", "storm 9;");
+        meanOf(higher, 2, 1, 1, 1);
+        meanOf(higher, 2, 2, 1, 2);
+        meanOf(higher, 3, 2, 0, 1);
         WindowHill stuck = Checks.hill("wide 5;row wwwww;", "storm 16;");
         meanOf(stuck, 5, 20, 5, 1);
         WindowHill none = Checks.hill("wide 1;row l;", "storm 16;");
@@ -330,7 +335,7 @@ public final class YearTests {
         h.bend(1, 0, 0);
         h.forget();
         Checks.year(h, "storm 16;");
-        Checks.town(h, "wide 5;row lllll;row lllll;rule z born 0;rule y;rule x;citizen w likes 1 to 1;");
+        Checks.town(h, "wide 5;row lllll;row nwxld;row lllll;rule z born 0;rule y;rule x;citizen w likes 1 to 1;");
         Checks.year(h, "mayor z;mayor y;mayor x;elect;");
         h.mark();
         C.due("marks", h.back(), 1);
