@@ -714,7 +714,9 @@ public final class WindowHill {
         private void make(int tray, int sort, int many) {
             sorts[tray] = sort;
             sizes[tray] = many;
-            Arrays.fill(numbers, tray * MOST, tray * MOST + many, 0L);
+            for (int place = 0; place < many; place++) {
+                numbers[tray * MOST + place] = 0;
+            }
         }
 
         private long numberAt(int tray, int place) {
