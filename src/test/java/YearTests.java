@@ -18,6 +18,7 @@ public final class YearTests {
         C.test("56 what it comes to stays", YearTests::liveStays);
         C.test("56, 57 at most 300 STEPS", YearTests::atMost);
         C.test("57 lived", YearTests::lived);
+        C.test("57 lived, the latest alone", YearTests::livedAgain);
         C.test("57 MISSED", YearTests::missed);
         C.test("57 whatever came behind it", YearTests::livedStays);
         C.test("58 mean", YearTests::mean);
@@ -192,6 +193,16 @@ public final class YearTests {
         C.asked(h, "left", () -> h.lived(4), 0);
         C.refused(h, 1, "-1", () -> h.lived(-1));
         C.refused(h, 1, "5", () -> h.lived(5));
+    }
+
+    private static void livedAgain() {
+        WindowHill h = Checks.hill("wide 1;row d;rule a;", "loop 99;birth;storm 16;birth;night 1;elect;end;");
+        C.done(h, "live", () -> h.live(7), 300);
+        for (int what = 0; what < 5; what++) {
+            C.due("more than none of " + what, h.lived(what) > 0, true);
+        }
+        Checks.year(h, "stop;");
+        lives(h, 7, 1, 0, 0, 0, 0, 0);
     }
 
     private static void missed() {
