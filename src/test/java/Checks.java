@@ -106,10 +106,19 @@ final class Checks {
             add(all, h.seen(k / 5, k % 5));
             add(all, h.lived(k));
         }
-        for (int place = 0; place < 240; place++) {
-            add(all, h.read(place / 60, place % 60));
+        for (int tray = 0; tray < 4; tray++) {
+            addTray(all, h, tray);
         }
         return all.toString();
+    }
+
+    private static void addTray(StringBuilder all, WindowHill h, int tray) {
+        boolean there = true;
+        for (int place = 0; place < 60 && there; place++) {
+            add(all, h.read(tray, place));
+            there = h.status() == 0;
+        }
+        add(all, h.status());
     }
 
     /** Feeds a text, filled up with bytes 0: how many bytes the text itself has. */

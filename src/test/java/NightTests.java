@@ -1,175 +1,197 @@
 /** Promises 18 to 32: what is done by hand, and nights. */
 public final class NightTests {
     private static final Checks C = new Checks();
-    private static final String MIXED = "wide 3;row dln;row wxd;rule a born 1;";
+    private static final Rows R = new Rows(C);
+    private static final String MAX = " " + Integer.MAX_VALUE;
+    private static final String MIN = " " + Integer.MIN_VALUE;
+    private static final String MIXED = "town: wide 3;row dln;row wxd;rule a born 1;";
     /** What is lit stays, and all around it is lit the next night. */
     private static final String SPREAD = "rule spread born 1 2 3 4 stays 0 1 2 3 4;";
     private static final String MIDDLE = "wide 3;row ddd;row dld;row ddd;" + SPREAD;
     private static final String FLIP = "wide 1;row d;rule a born 0;";
     private static final String LARGE = "wide 5;row ddddd;row ddddd;row ddddd;row ddddd;row ddddd;row ddddd;rule a;";
+    private static final String COLUMN = "wide 1;row d;row d;row d;row d;row d;row d;rule a;";
 
     public static void main(String[] args) {
-        C.test("18 turn", NightTests::turn);
-        C.test("18 turn, wrong", NightTests::turnWrong);
-        C.test("19 paint", NightTests::paint);
-        C.test("20 paintRows", NightTests::paintRows);
-        C.test("20 paintRows, wrong", NightTests::paintRowsWrong);
-        C.test("21 copyRows", NightTests::copyRows);
-        C.test("22 mayor", NightTests::mayor);
-        C.test("23 bend", NightTests::bend);
-        C.test("24 night", NightTests::night);
+        turn();
+        paint();
+        paintRows();
+        paintRowsRefused();
+        copyRows();
+        mayor();
+        bend();
+        night();
         C.test("24 night, STUCK lamps, gaps, a ring", NightTests::nightOddTowns);
         C.test("24 night, without RULES", NightTests::nightWithoutRules);
         C.test("24 night, many", NightTests::manyNights);
-        C.test("25 ahead", NightTests::ahead);
-        C.test("26 again", NightTests::again);
-        C.test("26, 27 nothing comes again in 2,000", NightTests::notAgain);
-        C.test("27 far", NightTests::far);
-        C.test("28 walks", NightTests::walks);
-        C.test("28 walks, in 60 alone", NightTests::walksInSixty);
-        C.test("28 walks, none", NightTests::walksNone);
-        C.test("29 still", NightTests::still);
-        C.test("30 next", NightTests::next);
-        C.test("31 oil", NightTests::oil);
-        C.test("32 brightest", NightTests::brightest);
+        ahead();
+        C.test("25 ahead, as by nights", NightTests::aheadAsByNights);
+        again();
+        againInTwoThousand();
+        C.test("27 far, as by nights", NightTests::farAsByNights);
+        far();
+        walks();
+        walksFar();
+        walksInSixty();
+        walksRefused();
+        still();
+        next();
+        oil();
+        brightest();
         C.end();
     }
 
-    private static WindowHill bent(String town, int born, int stays, int picture) {
-        WindowHill h = Checks.hill(town);
-        h.bend(0, born, stays);
-        h.paint(picture);
-        return h;
+    /** A TOWN whose first RULE is bent, and a PICTURE. */
+    private static String[] bent(String town, int born, int stays, int picture) {
+        return new String[] {"town: " + town, "bend 0 " + born + " " + stays, "paint " + picture};
     }
 
     private static void turn() {
-        WindowHill h = Checks.hill(MIXED);
-        C.done(h, "turn", () -> h.turn(0, 0), 1);
-        C.due("picture", h.picture(), 1 + 2 + 8);
-        C.done(h, "turn back", () -> h.turn(0, 0), 0);
-        C.done(h, "turn", () -> h.turn(1, 0), 0);
-        C.done(h, "turn", () -> h.turn(2, 1), 1);
-        C.due("picture", h.picture(), 8 + 32);
-        C.due("no NIGHT", h.told(7), 0);
-    }
-
-    private static void turnWrong() {
-        WindowHill h = Checks.hill(MIXED);
-        int[][] wrong = {{1, -1, 0}, {1, 3, 0}, {1, 0, -1}, {1, 0, 2}, {7, 2, 0}, {7, 0, 1}, {7, 1, 1}, {1, 3, 1}};
-        for (int[] w : wrong) {
-            C.refused(h, w[0], "turn " + w[1] + " " + w[2], () -> h.turn(w[1], w[2]));
-        }
+        R.on(MIXED);
+        R.gives("lit then", "turn 0 0", 1, "picture = 11", "told 7 = 0", "told 8 = 0");
+        R.gives("dark then", "turn 1 0", 0, "picture = 8");
+        R.gives("twice", "turn 0 0", 1, "turn 0 0 = 0", "picture = 10");
+        R.gives("the last PLACE", "turn 2 1", 1, "picture = 42");
+        R.on(Rows.TAPED);
+        R.refuses("x below 0", 1, "turn -1 0");
+        R.refuses("x below 0 of a later ROW", 1, "turn -1 1");
+        R.refuses("x is WIDE", 1, "turn 3 0");
+        R.refuses("y below 0", 1, "turn 0 -1");
+        R.refuses("y is ROWS", 1, "turn 0 2");
+        R.refuses("the largest", 1, "turn" + MAX + MAX);
+        R.refuses("the least", 1, "turn" + MIN + MIN);
+        R.refuses("no house", 7, "turn 2 0");
+        R.refuses("always lit", 7, "turn 0 1");
+        R.refuses("always dark", 7, "turn 1 1");
+        R.on(bent(LARGE, 0, 0, 0));
+        R.gives("the last PLACE of all", "turn 4 5", 1, "picture = " + (1 << 29));
     }
 
     private static void paint() {
-        WindowHill h = Checks.hill(MIXED);
-        C.done(h, "none", () -> h.paint(0), 1);
-        C.due("picture", h.picture(), 8);
-        C.done(h, "all", () -> h.paint(1073741823), 4);
-        C.due("picture", h.picture(), 1 + 2 + 8 + 32);
-        C.done(h, "one, and others", () -> h.paint(4 + 16 + 32 + 64), 2);
-        C.due("picture", h.picture(), 8 + 32);
-        for (long wrong : new long[] {-1, 1073741824, 1L << 32, Long.MIN_VALUE, Long.MAX_VALUE}) {
-            C.refused(h, 1, "paint " + wrong, () -> h.paint(wrong));
-        }
-    }
-
-    private static WindowHill traysOf(String town, int sort, long... numbers) {
-        WindowHill h = Checks.hill(town);
-        h.tray(1, sort, numbers.length);
-        for (int k = 0; k < numbers.length; k++) {
-            h.write(1, k, numbers[k]);
-        }
-        return h;
+        R.on(MIXED);
+        R.gives("none: STUCK ones stay", "paint 0", 1, "picture = 8");
+        R.gives("as much as can be: STUCK ones, gaps stay", "paint 1073741823", 4, "picture = 43");
+        R.gives("one, and others that don't matter", "paint 116", 2, "picture = 40");
+        R.on(Rows.TAPED);
+        R.refuses("below 0", 1, "paint -1");
+        R.refuses("above 1,073,741,823", 1, "paint 1073741824");
+        R.refuses("it would be 0 if it were cut", 1, "paint 4294967296");
+        R.refuses("it would be 1 if it were cut", 1, "paint -4294967295");
+        R.refuses("the largest", 1, "paint " + Long.MAX_VALUE);
+        R.refuses("the least", 1, "paint " + Long.MIN_VALUE);
+        R.on("town: " + LARGE);
+        R.gives("all 30", "paint 1073741823", 30, "picture = 1073741823");
     }
 
     private static void paintRows() {
-        WindowHill h = traysOf(MIXED, 0, 1, 4);
-        C.done(h, "paintRows", () -> h.paintRows(1), 3);
-        C.due("picture", h.picture(), 1 + 8 + 32);
-        WindowHill zero = traysOf(MIXED, 2, 0, 0);
-        C.done(zero, "0", () -> zero.paintRows(1), 1);
-        C.due("picture", zero.picture(), 8);
-        WindowHill more = traysOf(MIXED, 3, 31, 24, -1);
-        C.done(more, "beyond the WIDTH, and a row more", () -> more.paintRows(1), 3);
-        C.due("picture", more.picture(), 1 + 2 + 8);
-        WindowHill large = traysOf(LARGE, 1, 1, 2, 4, 8, 16, 31);
-        C.done(large, "large", () -> large.paintRows(1), 10);
-        C.due("picture", large.picture(), 1 + (2 << 5) + (4 << 10) + (8 << 15) + (16 << 20) + (31 << 25));
+        R.on(MIXED, "tray 1 0 2", "write 1 0 1", "write 1 1 4");
+        R.gives("each ROW as a number", "paintRows 1", 3, "picture = 41", "read 1 1 = 4");
+        R.on(MIXED, "tray 0 2 2");
+        R.gives("0", "paintRows 0", 1, "picture = 8");
+        R.on(MIXED, "tray 3 0 2", "write 3 0 31", "write 3 1 31");
+        R.gives("31, though it is 3 WIDE", "paintRows 3", 4, "picture = 43");
+        R.on(MIXED, "tray 2 3 2", "write 2 0 24", "write 2 1 25");
+        R.gives("what is beyond WIDE does not matter", "paintRows 2", 1, "picture = 8");
+        R.on(MIXED, "tray 2 3 3", "write 2 0 1", "write 2 2 -1");
+        R.gives("a number more than ROWS does not matter", "paintRows 2", 2, "picture = 9");
+        R.on("town: " + LARGE, "tray 1 1 6", "write 1 0 1", "write 1 1 2", "write 1 2 4", "write 1 3 8", "write 1 4 16",
+            "write 1 5 31");
+        R.gives("six ROWS", "paintRows 1", 10,
+            "picture = " + (1 + (2 << 5) + (4 << 10) + (8 << 15) + (16 << 20) + (31 << 25)));
     }
 
-    private static void paintRowsWrong() {
-        WindowHill h = traysOf(MIXED, 3, 7, 32);
-        C.refused(h, 1, "-1", () -> h.paintRows(-1));
-        C.refused(h, 1, "4", () -> h.paintRows(4));
-        C.refused(h, 2, "missing", () -> h.paintRows(0));
-        C.refused(h, 5, "32", () -> h.paintRows(1));
-        h.write(1, 1, -1);
-        C.refused(h, 5, "-1", () -> h.paintRows(1));
-        h.write(1, 1, 1L << 32);
-        C.refused(h, 5, "cut it would be 0", () -> h.paintRows(1));
-        h.tray(1, 3, 1);
-        h.write(1, 0, 99);
-        C.refused(h, 3, "too few, ahead of 5", () -> h.paintRows(1));
-        h.tray(1, 3, 0);
-        C.refused(h, 3, "none", () -> h.paintRows(1));
+    private static void paintRowsRefused() {
+        String[] town = Rows.TAPED;
+        R.on(town);
+        R.refuses("below the first TRAY", 1, "paintRows -1");
+        R.refuses("behind the last TRAY", 1, "paintRows 4");
+        R.refuses("the largest TRAY", 1, "paintRows" + MAX);
+        R.refuses("MISSING", 2, "paintRows 3");
+        R.on(Rows.and(town, "tray 3 3 2", "write 3 0 7", "write 3 1 32"));
+        R.refuses("32", 5, "paintRows 3");
+        R.on(Rows.and(town, "tray 3 3 2", "write 3 0 32"));
+        R.refuses("32 in the first ROW", 5, "paintRows 3");
+        R.on(Rows.and(town, "tray 3 3 2", "write 3 0 7", "write 3 1 -1"));
+        R.refuses("-1", 5, "paintRows 3");
+        R.on(Rows.and(town, "tray 3 3 2", "write 3 1 4294967296"));
+        R.refuses("it would be 0 if it were cut", 5, "paintRows 3");
+        R.on(Rows.and(town, "tray 3 3 2", "write 3 1 " + Long.MIN_VALUE));
+        R.refuses("the least number", 5, "paintRows 3");
+        R.on(Rows.and(town, "tray 3 0 2", "write 3 0 224"));
+        R.refuses("224 is -32 in 8 bits", 5, "paintRows 3");
+        R.on(Rows.and(town, "tray 3 3 1", "write 3 0 1"));
+        R.refuses("too few numbers", 3, "paintRows 3");
+        R.on(Rows.and(town, "tray 3 3 1", "write 3 0 99"));
+        R.refuses("3 ahead of 5", 3, "paintRows 3");
+        R.on(Rows.and(town, "tray 3 3 0"));
+        R.refuses("no numbers", 3, "paintRows 3");
     }
 
     private static void copyRows() {
-        WindowHill h = traysOf(MIXED, 0, 50, 51, 52);
-        C.done(h, "copyRows", () -> h.copyRows(1), 2);
-        C.due("row 0", h.read(1, 0), 2);
-        C.due("row 1", h.read(1, 1), 1);
-        C.due("the place behind", h.read(1, 2), 52);
-        C.refused(h, 1, "-1", () -> h.copyRows(-1));
-        C.refused(h, 1, "4", () -> h.copyRows(4));
-        C.refused(h, 2, "missing", () -> h.copyRows(3));
-        h.tray(1, 0, 1);
-        C.refused(h, 3, "too few", () -> h.copyRows(1));
-        WindowHill large = bent(LARGE, 0, 0, (1 << 30) - 1);
-        large.tray(0, 0, 6);
-        C.done(large, "large", () -> large.copyRows(0), 6);
-        C.due("row 5", large.read(0, 5), 31);
+        R.on(MIXED, "tray 1 0 3", "write 1 0 50", "write 1 1 51", "write 1 2 52");
+        R.gives("ROWS come, what is behind them stays", "copyRows 1", 2, "read 1 0 = 2", "read 1 1 = 1", "read 1 2 = 52",
+            "picture = 10");
+        R.on(MIXED, "tray 3 3 2");
+        R.gives("just enough numbers", "copyRows 3", 2, "read 3 0 = 2", "read 3 1 = 1");
+        R.on(Rows.and(bent(LARGE, 0, 0, (1 << 30) - 1 - 32), "tray 0 0 6"));
+        R.gives("six ROWS", "copyRows 0", 6, "read 0 0 = 31", "read 0 1 = 30", "read 0 5 = 31");
+        R.on(Rows.TAPED);
+        R.refuses("below the first TRAY", 1, "copyRows -1");
+        R.refuses("behind the last TRAY", 1, "copyRows 4");
+        R.refuses("the largest TRAY", 1, "copyRows" + MAX);
+        R.refuses("MISSING", 2, "copyRows 3");
+        R.on(Rows.and(Rows.TAPED, "tray 3 0 1", "write 3 0 77"));
+        R.refuses("too few numbers", 3, "copyRows 3");
+        R.on(Rows.and(Rows.TAPED, "tray 3 0 0"));
+        R.refuses("no numbers", 3, "copyRows 3");
     }
 
     private static void mayor() {
-        WindowHill h = Checks.hill("wide 1;row d;rule a;rule b born 0;");
-        C.due("dark", h.ahead(1), 0);
-        C.doneSo(h, "mayor", () -> h.mayor(1));
-        C.due("told", h.told(10), 1);
-        C.due("lit", h.ahead(1), 1);
-        C.doneSo(h, "mayor", () -> h.mayor(0));
-        C.denied(h, 1, "-1", () -> h.mayor(-1));
-        C.denied(h, 1, "2", () -> h.mayor(2));
-        WindowHill none = Checks.hill("wide 1;row d;");
-        C.denied(none, 1, "no RULES", () -> none.mayor(0));
+        R.on("town: wide 1;row d;rule a;rule b born 0;rule c;rule d born 0;");
+        R.gives("another one", "mayor 1", 1, "told 10 = 1", "ahead 1 = 1", "picture = 0", "told 7 = 0");
+        R.gives("the last of four", "mayor 3", 1, "told 10 = 3", "ahead 1 = 1");
+        R.gives("the same", "mayor 0", 1, "told 10 = 0", "ahead 1 = 0");
+        R.refuses("a fifth", 1, "mayor 4");
+        R.on(Rows.TAPED);
+        R.refuses("below 0", 1, "mayor -1");
+        R.refuses("more than there are", 1, "mayor 2");
+        R.refuses("the largest", 1, "mayor" + MAX);
+        R.refuses("the least", 1, "mayor" + MIN);
+        R.on("town: wide 1;row d;");
+        R.refuses("no RULES", 1, "mayor 0");
     }
 
     private static void bend() {
-        WindowHill h = Checks.hill("wide 1;row d;rule a;rule b born 0;");
-        C.doneSo(h, "bend", () -> h.bend(0, 1, 31));
-        C.due("born", h.rule(0, 0), 1);
-        C.due("stays", h.rule(0, 1), 31);
-        C.due("the other", h.rule(1, 1), 0);
-        C.due("it counts at once", h.night(1), 1);
-        int[][] wrong = {{-1, 0, 0}, {2, 0, 0}, {0, -1, 0}, {0, 32, 0}, {0, 0, -1}, {0, 0, 32}};
-        for (int[] w : wrong) {
-            C.denied(h, 1, "bend", () -> h.bend(w[0], w[1], w[2]));
-        }
+        R.on("town: wide 1;row d;rule a;rule b born 0 stays 1;");
+        R.gives("other sets", "bend 0 1 30", 1, "rule 0 0 = 1", "rule 0 1 = 30", "rule 1 0 = 1", "rule 1 1 = 2");
+        R.gives("31", "bend 0 31 31", 1, "rule 0 0 = 31", "rule 0 1 = 31");
+        R.gives("0", "bend 1 0 0", 1, "rule 1 0 = 0", "rule 1 1 = 0");
+        R.gives("it counts at once", "bend 0 1 0", 1, "night 1 = 1");
+        R.gives("not of the mayor's", "bend 1 31 31", 1, "told 10 = 0", "night 1 = 0");
+        R.on(Rows.TAPED);
+        R.refuses("a RULE below 0", 1, "bend -1 0 0");
+        R.refuses("a RULE more than there are", 1, "bend 2 0 0");
+        R.refuses("the largest RULE", 1, "bend" + MAX + " 0 0");
+        R.refuses("BORN below 0", 1, "bend 0 -1 0");
+        R.refuses("BORN above 31", 1, "bend 0 32 0");
+        R.refuses("STAYS below 0", 1, "bend 0 0 -1");
+        R.refuses("STAYS above 31", 1, "bend 0 0 32");
+        R.on("town: wide 1;row d;");
+        R.refuses("no RULES", 1, "bend 0 0 0");
     }
 
     private static void night() {
-        WindowHill h = Checks.hill(MIDDLE);
-        C.done(h, "night", () -> h.night(1), 5);
-        C.due("picture", h.picture(), 2 + 8 + 16 + 32 + 128);
-        C.due("NIGHT", h.told(7), 1);
-        C.due("OIL", h.told(8), 1);
-        C.done(h, "two", () -> h.night(2), 9);
-        C.due("NIGHT", h.told(7), 3);
-        C.due("OIL", h.told(8), 15);
-        C.refused(h, 1, "0", () -> h.night(0));
-        C.refused(h, 1, "-1", () -> h.night(-1));
-        C.refused(h, 1, "1000", () -> h.night(1000));
+        R.on("town: " + MIDDLE);
+        R.gives("one", "night 1", 5, "picture = 186", "told 7 = 1", "told 8 = 1");
+        R.gives("two", "night 2", 9, "picture = 511", "told 7 = 2", "told 8 = 6");
+        R.gives("three", "night 3", 9, "told 7 = 3", "told 8 = 15");
+        R.gives("999", "night 999", 9, "told 7 = 999", "told 8 = " + (6 + 997 * 9));
+        R.on(Rows.TAPED);
+        R.refuses("0", 1, "night 0");
+        R.refuses("-1", 1, "night -1");
+        R.refuses("1000", 1, "night 1000");
+        R.refuses("the largest", 1, "night" + MAX);
+        R.refuses("the least", 1, "night" + MIN);
     }
 
     private static void nightOddTowns() {
@@ -185,6 +207,9 @@ public final class NightTests {
         // (1,1): left w, below l; (0,0): below w alone; (2,1): above l, below l
         C.due("by all what showed at once", other.night(1), 5);
         C.due("picture", other.picture(), 8 + 16 + 32 + 128 + 256);
+        WindowHill always = Checks.hill("wide 5;row wldlw;row xndwx;rule a;");
+        C.due("several that are always lit", always.night(1), 3);
+        C.due("picture", always.picture(), 1 + 16 + (8 << 5));
     }
 
     private static void nightWithoutRules() {
@@ -206,8 +231,8 @@ public final class NightTests {
         C.due("999 more", h.night(999), 0);
         C.due("OIL", h.told(8), 999);
         C.due("NIGHT", h.told(7), 1998);
-        WindowHill one = bent(LARGE, 29, 2, 458064498);
-        WindowHill other = bent(LARGE, 29, 2, 458064498);
+        WindowHill one = Rows.made(bent(LARGE, 29, 2, 458064498));
+        WindowHill other = Rows.made(bent(LARGE, 29, 2, 458064498));
         for (int night = 0; night < 400; night++) {
             one.night(1);
         }
@@ -216,165 +241,245 @@ public final class NightTests {
     }
 
     private static void ahead() {
-        WindowHill h = Checks.hill(MIDDLE);
-        C.asked(h, "0", () -> h.ahead(0), 16);
-        C.asked(h, "1", () -> h.ahead(1), 186);
-        C.asked(h, "2", () -> h.ahead(2), 511);
-        C.asked(h, "999", () -> h.ahead(999), 511);
-        C.refused(h, 1, "-1", () -> h.ahead(-1));
-        C.refused(h, 1, "1000", () -> h.ahead(1000));
-        WindowHill flip = Checks.hill(FLIP);
-        C.asked(flip, "998", () -> flip.ahead(998), 0);
-        C.asked(flip, "999", () -> flip.ahead(999), 1);
-        WindowHill large = bent(LARGE, 29, 2, 458064498);
-        long far = large.ahead(777);
-        large.night(777);
-        C.due("as by nights", large.picture(), far);
+        R.on("town: " + MIDDLE);
+        R.gives("0", "ahead 0", 16);
+        R.gives("1", "ahead 1", 186);
+        R.gives("2", "ahead 2", 511);
+        R.gives("999", "ahead 999", 511);
+        R.on("town: " + FLIP);
+        R.gives("998", "ahead 998", 0);
+        R.gives("999", "ahead 999", 1);
+        R.on("town: " + FLIP, "night 1");
+        R.gives("999 from now on", "ahead 999", 0);
+        R.on(Rows.TAPED);
+        R.refuses("-1", 1, "ahead -1");
+        R.refuses("1000", 1, "ahead 1000");
+        R.refuses("the largest", 1, "ahead" + MAX);
+        R.refuses("the least", 1, "ahead" + MIN);
+    }
+
+    private static void aheadAsByNights() {
+        WindowHill h = Rows.made(bent(LARGE, 29, 2, 458064498));
+        long far = h.ahead(777);
+        h.night(777);
+        C.due("as by nights", h.picture(), far);
     }
 
     private static void again() {
-        WindowHill h = Checks.hill(MIDDLE);
-        C.asked(h, "LEAD", () -> h.again(0), 2);
-        C.asked(h, "ROUND", () -> h.again(1), 1);
-        WindowHill flip = Checks.hill(FLIP);
-        C.asked(flip, "LEAD", () -> flip.again(0), 0);
-        C.asked(flip, "ROUND", () -> flip.again(1), 2);
-        C.refused(h, 1, "-1", () -> h.again(-1));
-        C.refused(h, 1, "2", () -> h.again(2));
+        R.on("town: " + MIDDLE);
+        R.gives("LEAD", "again 0", 2);
+        R.gives("ROUND", "again 1", 1);
+        R.on("town: " + MIDDLE, "night 1");
+        R.gives("LEAD from now on", "again 0", 1);
+        R.on("town: " + FLIP);
+        R.gives("no LEAD", "again 0", 0);
+        R.gives("ROUND of 2", "again 1", 2);
+        R.on("town: wide 1;row x;");
+        R.gives("no LEAD, it stays", "again 0", 0);
+        R.gives("ROUND of 1", "again 1", 1);
+        R.on(Rows.TAPED);
+        R.refuses("-1", 1, "again -1");
+        R.refuses("2", 1, "again 2");
+        R.refuses("the largest", 1, "again" + MAX);
+        R.refuses("the least", 1, "again" + MIN);
     }
 
-    /** Its picture of night 2,201 comes again at 2,208. */
-    private static void notAgain() {
-        WindowHill h = bent(LARGE, 29, 2, 458064498);
-        h.night(207);
-        C.refused(h, 7, "2,001 LEAD", () -> h.again(0));
-        C.refused(h, 7, "2,001 ROUND", () -> h.again(1));
-        C.refused(h, 7, "far", () -> h.far(5000));
-        C.refused(h, 7, "far, though near", () -> h.far(0));
-        C.refused(h, 1, "1 ahead of 7", () -> h.again(2));
-        C.refused(h, 1, "1 ahead of 7", () -> h.far(-1));
-        h.night(1);
-        C.asked(h, "LEAD", () -> h.again(0), 1993);
-        C.asked(h, "ROUND", () -> h.again(1), 7);
+    /** The first PICTURE of night 2,201 comes again at 2,208. */
+    private static void againInTwoThousand() {
+        String[] long2208 = bent(LARGE, 29, 2, 458064498);
+        R.on(Rows.and(long2208, "night 207"));
+        R.refuses("LEAD and ROUND are 2,001", 7, "again 0");
+        R.refuses("LEAD and ROUND are 2,001", 7, "again 1");
+        R.refuses("LEAD and ROUND are 2,001", 7, "far 5000");
+        R.refuses("LEAD and ROUND are 2,001, though it is near", 7, "far 0");
+        R.refuses("1 ahead of 7", 1, "again 2");
+        R.refuses("1 ahead of 7", 1, "far -1");
+        R.on(Rows.and(long2208, "night 208"));
+        R.gives("LEAD and ROUND are 2,000", "again 0", 1993);
+        R.gives("LEAD and ROUND are 2,000", "again 1", 7);
+        R.on(Rows.and(long2208, "night 999", "night 999", "night 203"));
+        R.gives("the first PICTURE that comes again", "again 0", 0);
+        R.on(Rows.and(bent(LARGE, 21, 0, 884239031), "night 79"));
+        R.refuses("a long ROUND, 2,001", 7, "again 0");
+        R.on(Rows.and(bent(LARGE, 21, 0, 884239031), "night 80"));
+        R.gives("a long ROUND, 2,000", "again 0", 428);
+        R.gives("a long ROUND, 2,000", "again 1", 1572);
+        R.on(Rows.and(bent(LARGE.replace("5;", "5 ring;"), 22, 24, 365804757), "night 72"));
+        R.refuses("a ROUND of 2,275 from now on", 7, "again 1");
+        R.refuses("a ROUND of 2,275 from now on", 7, "far 3");
+        R.on(bent(LARGE, 26, 9, 348915637));
+        R.refuses("a ROUND of 96 from 7,753 on", 7, "again 1");
+    }
+
+    private static void farAsByNights() {
+        WindowHill h = Rows.made(bent(LARGE, 29, 2, 458064498));
+        h.night(208);
         long far = h.far(999999999);
         h.night(999);
         h.night(994);
+        // 999,999,999 is 1,993 and 142,856,858 ROUNDS of 7
         C.due("1,993 and whole rounds", h.picture(), far);
-        C.due("LEAD", h.again(0), 0);
-        WindowHill round = bent(LARGE, 21, 0, 884239031);
-        round.night(79);
-        C.refused(round, 7, "2,001", () -> round.again(0));
-        round.night(1);
-        C.asked(round, "LEAD", () -> round.again(0), 428);
-        C.asked(round, "ROUND", () -> round.again(1), 1572);
-        WindowHill ring = bent(LARGE.replace("5;", "5 ring;"), 22, 24, 365804757);
-        ring.night(72);
-        C.refused(ring, 7, "a round of 2,275 from now on", () -> ring.again(1));
-        C.refused(ring, 7, "far", () -> ring.far(3));
-        WindowHill late = bent(LARGE, 26, 9, 348915637);
-        C.refused(late, 7, "a round of 96 from 7,753 on", () -> late.again(1));
     }
 
     private static void far() {
-        WindowHill h = Checks.hill(MIDDLE);
-        C.asked(h, "0", () -> h.far(0), 16);
-        C.asked(h, "1", () -> h.far(1), 186);
-        C.asked(h, "2", () -> h.far(2), 511);
-        C.asked(h, "999999999", () -> h.far(999999999), 511);
-        WindowHill flip = Checks.hill(FLIP);
-        C.asked(flip, "999999998", () -> flip.far(999999998), 0);
-        C.asked(flip, "999999999", () -> flip.far(999999999), 1);
-        C.refused(h, 1, "-1", () -> h.far(-1));
-        C.refused(h, 1, "1000000000", () -> h.far(1000000000));
+        R.on("town: " + MIDDLE);
+        R.gives("0", "far 0", 16);
+        R.gives("1", "far 1", 186);
+        R.gives("2", "far 2", 511);
+        R.gives("999,999,999", "far 999999999", 511);
+        R.on("town: " + FLIP);
+        R.gives("999,999,998", "far 999999998", 0);
+        R.gives("999,999,999 goes round", "far 999999999", 1);
+        R.on(Rows.TAPED);
+        R.refuses("-1", 1, "far -1");
+        R.refuses("1,000,000,000", 1, "far 1000000000");
+        R.refuses("the largest", 1, "far" + MAX);
+        R.refuses("the least", 1, "far" + MIN);
     }
 
-    private static void walk(WindowHill h, int night, int x, int y) {
-        C.asked(h, "NIGHT", () -> h.walks(0), night);
-        C.asked(h, "x", () -> h.walks(1), x);
-        C.asked(h, "y", () -> h.walks(2), y);
+    private static void walk(String why, int night, int x, int y) {
+        R.gives(why + ": the NIGHT", "walks 0", night);
+        R.gives(why + ": x", "walks 1", x);
+        R.gives(why + ": y", "walks 2", y);
     }
 
     private static void walks() {
-        walk(Checks.hill("wide 2;row ld;rule a born 1;"), 1, 1, 0);
-        walk(Checks.hill("wide 2;row dl;rule a born 1;"), 1, -1, 0);
-        walk(Checks.hill("wide 1;row d;row l;rule a born 1;"), 1, 0, -1);
-        walk(Checks.hill("wide 1;row l;rule a born 0;"), 2, 0, 0);
-        walk(Checks.hill("wide 1;row l;rule a stays 0;"), 1, 0, 0);
-        walk(Checks.hill("wide 3;row xwx;"), 1, 0, 0);
-        walk(bent("wide 5;row ddddd;row ddddd;row dddxd;row ddddd;rule a;", 18, 5, 16384), 12, -4, -2);
-        walk(bent("wide 5;row ddddd;row ddddd;row dnddd;row ddddd;rule a;", 2, 0, 4), 7, 2, 3);
-        walk(bent("wide 2;row dd;row dd;row dx;row dd;row dd;row dd;rule a;", 26, 25, 4), 4, 0, 4);
-        walk(bent("wide 1;row d;row d;row d;row d;row d;row d;rule a;", 26, 13, 16), 4, 0, -4);
+        R.on("town: wide 2;row ld;rule a born 1;");
+        walk("to the right", 1, 1, 0);
+        R.on("town: wide 2;row dl;rule a born 1;");
+        walk("to the left", 1, -1, 0);
+        R.on("town: wide 1;row d;row l;rule a born 1;");
+        walk("up", 1, 0, -1);
+        R.on("town: wide 1;row l;row d;rule a born 1;");
+        walk("down", 1, 0, 1);
+        R.on("town: wide 1;row l;rule a born 0;");
+        walk("comes again", 2, 0, 0);
+        R.on("town: wide 1;row l;rule a stays 0;");
+        walk("stays", 1, 0, 0);
+        R.on("town: wide 3;row xwx;");
+        walk("STUCK", 1, 0, 0);
+    }
+
+    private static void walksFar() {
+        R.on(bent("wide 5;row ddddd;row ddddd;row dddxd;row ddddd;rule a;", 18, 5, 16384));
+        walk("4 to the left", 12, -4, -2);
+        R.on(bent("wide 5;row ddddd;row ddddd;row dnddd;row ddddd;rule a;", 2, 0, 4));
+        walk("right and down", 7, 2, 3);
+        R.on(bent("wide 2;row dd;row dd;row dx;row dd;row dd;row dd;rule a;", 26, 25, 4));
+        walk("4 down", 4, 0, 4);
+        R.on(bent(COLUMN, 26, 13, 16));
+        walk("4 up", 4, 0, -4);
+        R.on(bent("wide 5;row ddxdd;row ddddd;rule a;", 17, 4, 1));
+        walk("4 to the right", 3, 4, 0);
+        R.on(bent("wide 5 ring;row dddxd;row ddddd;rule a;", 2, 10, 16));
+        walk("4 to the left, 1 down", 5, -4, 1);
+        R.on(bent("wide 2;row dd;row dd;row dd;row dd;row dd;row dd;rule a;", 6, 1, 1));
+        walk("5 down", 6, 1, 5);
+        R.on(bent("wide 2;row dd;row dd;row dd;row dd;row dd;row dd;rule a;", 6, 17, 2048));
+        walk("5 up", 6, -1, -5);
+        // of a ring: both others become lit, both ends go dark; moved round the RING it would be this one
+        R.on("town: wide 4 ring;row lddl;rule a born 1;");
+        walk("not round the RING", 2, 0, 0);
     }
 
     private static void walksInSixty() {
-        String ring = "wide 5 ring;row ddwdd;row dxddd;row ddddd;row ddddd;row ddddd;rule a;";
-        walk(bent(ring, 25, 3, 23288069), 60, 0, 0);
-        WindowHill late = bent("wide 5 ring;row dddnd;row ddddd;row dnddd;row ddddd;rule a;", 3, 4, 13251);
-        C.asked(late, "LEAD", () -> late.again(0), 0);
-        C.asked(late, "ROUND", () -> late.again(1), 61);
-        C.refused(late, 6, "61", () -> late.walks(0));
+        R.on(bent("wide 5 ring;row ddwdd;row dxddd;row ddddd;row ddddd;row ddddd;rule a;", 25, 3, 23288069));
+        walk("comes again in 60", 60, 0, 0);
+        R.on(bent("wide 5 ring;row dddnd;row ddddd;row dnddd;row ddddd;rule a;", 3, 4, 13251));
+        R.gives("it comes again", "again 0", 0);
+        R.gives("in 61", "again 1", 61);
+        R.refuses("61", 6, "walks 0");
+        R.refuses("61", 6, "walks 1");
+        R.refuses("61", 6, "walks 2");
     }
 
-    private static void walksNone() {
-        WindowHill dark = Checks.hill("wide 1;row d;rule a;");
-        C.refused(dark, 6, "none is lit", () -> dark.walks(0));
-        WindowHill dying = Checks.hill("wide 1;row l;rule a;");
-        C.refused(dying, 6, "goes dark", () -> dying.walks(2));
-        WindowHill spread = Checks.hill(MIDDLE);
-        C.refused(spread, 6, "grows", () -> spread.walks(1));
-        C.refused(spread, 1, "-1", () -> spread.walks(-1));
-        C.refused(spread, 1, "3", () -> spread.walks(3));
+    private static void walksRefused() {
+        R.on("town: wide 1;row d;rule a;");
+        R.refuses("no lamp is lit", 6, "walks 0");
+        R.refuses("1 ahead of 6", 1, "walks 3");
+        R.on("town: wide 1;row d;rule a born 0;");
+        R.refuses("no lamp is lit now", 6, "walks 0");
+        R.on("town: wide 1;row l;rule a;");
+        R.refuses("goes dark", 6, "walks 2");
+        R.on("town: " + MIDDLE);
+        R.refuses("grows", 6, "walks 1");
         // moved by one to the right it would be this picture, but the last lamp is not on a PLACE
-        WindowHill edge = Checks.hill("wide 3;row ddl;row ldd;row ddd;rule a born 1 2;");
-        C.refused(edge, 6, "beyond the edge", () -> edge.walks(0));
+        R.on("town: wide 3;row ddl;row ldd;row ddd;rule a born 1 2;");
+        R.refuses("beyond the edge", 6, "walks 0");
+        R.on(Rows.TAPED);
+        R.refuses("-1", 1, "walks -1");
+        R.refuses("3", 1, "walks 3");
+        R.refuses("the largest", 1, "walks" + MAX);
+        R.refuses("the least", 1, "walks" + MIN);
     }
 
     private static void still() {
-        WindowHill h = Checks.hill(MIDDLE);
-        C.asked(h, "grows", h::still, 0);
-        h.night(2);
-        C.asked(h, "all lit", h::still, 1);
-        WindowHill alone = Checks.hill("wide 2;row wx;");
-        C.asked(alone, "STUCK", alone::still, 1);
-        WindowHill none = Checks.hill("wide 2;row wl;");
-        C.asked(none, "goes dark", none::still, 0);
+        R.on("town: " + MIDDLE);
+        R.gives("grows", "still", 0);
+        R.on("town: " + MIDDLE, "night 2");
+        R.gives("all lit", "still", 1);
+        R.on("town: wide 1;row d;rule a;");
+        R.gives("all dark", "still", 1);
+        R.on("town: wide 2;row wx;");
+        R.gives("STUCK", "still", 1);
+        R.on("town: wide 2;row wl;");
+        R.gives("one goes dark", "still", 0);
+        R.on("town: wide 2;row nn;rule a born 0;");
+        R.gives("no house", "still", 1);
     }
 
     private static void next() {
-        WindowHill h = Checks.hill(MIDDLE);
-        C.asked(h, "newly lit", () -> h.next(0), 4);
-        C.asked(h, "go dark", () -> h.next(1), 0);
-        C.asked(h, "stay lit", () -> h.next(2), 1);
-        WindowHill mixed = Checks.hill("wide 5;row lwddl;rule a born 1 stays 0;");
-        C.asked(mixed, "newly lit", () -> mixed.next(0), 2);
-        C.asked(mixed, "go dark", () -> mixed.next(1), 1);
-        C.asked(mixed, "stay lit", () -> mixed.next(2), 2);
-        C.refused(h, 1, "-1", () -> h.next(-1));
-        C.refused(h, 1, "3", () -> h.next(3));
+        R.on("town: " + MIDDLE);
+        R.gives("newly lit", "next 0", 4);
+        R.gives("go dark", "next 1", 0);
+        R.gives("stay lit", "next 2", 1);
+        R.on("town: wide 5;row lwddl;rule a born 1 stays 0;");
+        R.gives("newly lit", "next 0", 2);
+        R.gives("go dark", "next 1", 1);
+        R.gives("stay lit, a STUCK one too", "next 2", 2);
+        R.on(Rows.TAPED);
+        R.refuses("-1", 1, "next -1");
+        R.refuses("3", 1, "next 3");
+        R.refuses("the largest", 1, "next" + MAX);
+        R.refuses("the least", 1, "next" + MIN);
     }
 
     private static void oil() {
-        WindowHill h = Checks.hill(MIDDLE);
+        R.on("town: " + MIDDLE);
         int[][] due = {{0, 0}, {1, 1}, {5, 1}, {6, 2}, {14, 2}, {15, 3}, {8978, 998}, {8979, 999}, {9999, 999}};
         for (int[] d : due) {
-            C.asked(h, "oil " + d[0], () -> h.oil(d[0]), d[1]);
+            R.gives("1, 5, 9, 9 .. each NIGHT", "oil " + d[0], d[1]);
         }
-        C.refused(h, 1, "-1", () -> h.oil(-1));
-        C.refused(h, 1, "10000", () -> h.oil(10000));
-        WindowHill dark = Checks.hill("wide 1;row d;");
-        C.asked(dark, "dark", () -> dark.oil(0), 999);
+        R.on("town: wide 1;row d;");
+        R.gives("dark, no OIL", "oil 0", 999);
+        R.gives("dark, as much as can be", "oil 9999", 999);
+        R.on("town: wide 5;row wwwww;row wwwww;");
+        R.gives("the last drop", "oil 9980", 998);
+        R.gives("one less", "oil 9979", 997);
+        R.gives("as much as can be", "oil 9999", 999);
+        R.gives("one less than 999 NIGHTS burn", "oil 9989", 998);
+        R.on(Rows.TAPED);
+        R.refuses("-1", 1, "oil -1");
+        R.refuses("10000", 1, "oil 10000");
+        R.refuses("the largest", 1, "oil" + MAX);
+        R.refuses("the least", 1, "oil" + MIN);
     }
 
     private static void brightest() {
-        WindowHill h = Checks.hill(MIDDLE);
-        C.asked(h, "this one", () -> h.brightest(0), 1);
-        C.asked(h, "1", () -> h.brightest(1), 5);
-        C.asked(h, "2", () -> h.brightest(2), 9);
-        C.asked(h, "999", () -> h.brightest(999), 9);
-        WindowHill dying = Checks.hill("wide 3;row lll;rule a stays 2;");
-        C.asked(dying, "goes dark", () -> dying.brightest(999), 3);
-        C.refused(h, 1, "-1", () -> h.brightest(-1));
-        C.refused(h, 1, "1000", () -> h.brightest(1000));
+        R.on("town: " + MIDDLE);
+        R.gives("this one", "brightest 0", 1);
+        R.gives("1", "brightest 1", 5);
+        R.gives("2", "brightest 2", 9);
+        R.gives("999", "brightest 999", 9);
+        R.on("town: wide 3;row lll;rule a stays 2;");
+        R.gives("this one, though it goes dark", "brightest 999", 3);
+        R.on(Rows.and(bent(LARGE, 6, 26, 863696554), "night 157"));
+        R.gives("not yet", "brightest 998", 27);
+        R.gives("all are lit in the last of 999", "brightest 999", 30);
+        R.on(Rows.TAPED);
+        R.refuses("-1", 1, "brightest -1");
+        R.refuses("1000", 1, "brightest 1000");
+        R.refuses("the largest", 1, "brightest" + MAX);
+        R.refuses("the least", 1, "brightest" + MIN);
     }
 }

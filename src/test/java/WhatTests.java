@@ -1,338 +1,465 @@
 /** Promises 33 to 55: what was, lamps turned, what was SEEN, ELECTIONS, SHIPS. */
 public final class WhatTests {
     private static final Checks C = new Checks();
+    private static final Rows R = new Rows(C);
+    private static final String MAX = " " + Integer.MAX_VALUE;
+    private static final String MIN = " " + Integer.MIN_VALUE;
+    /** What is lit stays, and all around it is lit the next night. */
     private static final String SPREAD = "rule spread born 1 2 3 4 stays 0 1 2 3 4;";
-    private static final String DARK = "wide 3;row ddd;row ddd;row ddd;";
-    private static final String MIDDLE = "wide 3;row ddd;row dld;row ddd;";
-    private static final String LARGE = "wide 5;row ddddd;row ddddd;row ddddd;row ddddd;row ddddd;row ddddd;";
+    private static final String STAYS = "rule keep stays 0 1 2 3 4;";
+    private static final String DARK = "town: wide 3;row ddd;row ddd;row ddd;";
+    private static final String MIDDLE = "town: wide 3;row ddd;row dld;row ddd;";
+    private static final String LARGE = "town: wide 5;row ddddd;row ddddd;row ddddd;row ddddd;row ddddd;row ddddd;";
+    /** The last PLACE alone is not STUCK. */
+    private static final String LAST = "town: wide 5;row xxxxx;row xxxxx;row xxxxx;row xxxxx;row xxxxx;row xxxxd;";
     private static final int ALL = (1 << 30) - 1;
 
     public static void main(String[] args) {
-        C.test("33, 34 ancestors", WhatTests::ancestors);
-        C.test("33, 34 an ORPHAN", WhatTests::orphan);
-        C.test("33, 34 ancestors, large", WhatTests::largeAncestors);
-        C.test("35, 36 stills", WhatTests::stills);
-        C.test("37 pictures", WhatTests::pictures);
-        C.test("38 signal", WhatTests::signal);
-        C.test("38 signal, wrong", WhatTests::signalWrong);
-        C.test("39 spoils", WhatTests::spoils);
-        C.test("40 worst", WhatTests::worst);
-        C.test("41 mend", WhatTests::mend);
-        C.test("42 unlike", WhatTests::unlike);
-        C.test("43 seen", WhatTests::seen);
-        C.test("43, 44 both seen", WhatTests::bothSeen);
-        C.test("44 rulesLeft", WhatTests::rulesLeft);
-        C.test("45 fits", WhatTests::fits);
-        C.test("46 forget", WhatTests::forget);
-        C.test("47 shows", WhatTests::shows);
-        C.test("48 vote", WhatTests::vote);
-        C.test("49 votes", WhatTests::votes);
-        C.test("50 elect", WhatTests::elect);
-        C.test("51 reads", WhatTests::reads);
-        C.test("52 mirror", WhatTests::mirror);
-        C.test("53 heaps", WhatTests::heaps);
-        C.test("54 heap", WhatTests::heap);
-        C.test("55 company", WhatTests::company);
+        ancestors();
+        orphan();
+        largeAncestors();
+        stills();
+        largeStills();
+        pictures();
+        signal();
+        signalOfSeveral();
+        signalLarge();
+        signalRefused();
+        spoils();
+        spoilsRefused();
+        worst();
+        mend();
+        mendLarge();
+        unlike();
+        seen();
+        seenBoth();
+        seenRefused();
+        rulesLeft();
+        fits();
+        forget();
+        shows();
+        vote();
+        votes();
+        elect();
+        reads();
+        mirror();
+        heaps();
+        heap();
+        company();
         C.end();
     }
 
+    private static void ancestors(String why, long many, long first) {
+        R.gives(why, "ancestors", many);
+        R.gives(why + ": FIRST", "ancestor", first);
+    }
+
     private static void ancestors() {
-        WindowHill h = Checks.hill("wide 3;row lll;" + SPREAD);
-        C.asked(h, "with the middle one, or both others", h::ancestors, 5);
-        C.asked(h, "FIRST", h::ancestor, 2);
-        WindowHill dark = Checks.hill("wide 3;row ddd;" + SPREAD);
-        C.asked(dark, "the dark one alone", dark::ancestors, 1);
-        C.asked(dark, "FIRST", dark::ancestor, 0);
-        WindowHill stuck = Checks.hill("wide 3;row lwl;" + SPREAD);
-        C.asked(stuck, "by a STUCK one", stuck::ancestors, 4);
-        C.asked(stuck, "FIRST", stuck::ancestor, 2);
-        WindowHill none = Checks.hill("wide 3;row dwn;row xdd;");
-        C.asked(none, "without RULES", none::ancestors, 8);
-        C.asked(none, "FIRST", none::ancestor, 2);
-        WindowHill gaps = Checks.hill("wide 1;row n;");
-        C.asked(gaps, "no house", gaps::ancestors, 1);
-        WindowHill ring = Checks.hill("wide 3 ring;row lll;" + SPREAD);
-        C.asked(ring, "a RING", ring::ancestors, 7);
-        C.asked(ring, "FIRST", ring::ancestor, 1);
+        R.on("town: wide 3;row lll;" + SPREAD);
+        ancestors("with the middle one, or both others", 5, 2);
+        R.on("town: wide 3;row ddd;" + SPREAD);
+        ancestors("the dark one alone", 1, 0);
+        R.on("town: wide 3;row lwl;" + SPREAD);
+        ancestors("a STUCK one is as it is", 4, 2);
+        R.on("town: wide 3;row dwn;row xdd;");
+        ancestors("without RULES all", 8, 2);
+        R.on("town: wide 1;row n;");
+        ancestors("no house", 1, 0);
+        R.on("town: wide 1;row w;" + SPREAD);
+        ancestors("a STUCK one alone", 1, 1);
+        R.on("town: wide 3 ring;row lll;" + SPREAD);
+        ancestors("a RING", 7, 1);
+        R.on("town: wide 1;row l;row l;row l;row l;row l;row l;" + SPREAD);
+        ancestors("six ROWS of 1", 31, 18);
     }
 
     private static void orphan() {
-        WindowHill h = Checks.hill("wide 3;row ldl;" + SPREAD);
-        C.asked(h, "none", h::ancestors, 0);
-        C.refused(h, 6, "ORPHAN", h::ancestor);
-        WindowHill none = Checks.hill("wide 2;row ld;");
-        C.asked(none, "without RULES", none::ancestors, 0);
-        C.refused(none, 6, "ORPHAN", none::ancestor);
-        WindowHill stuck = Checks.hill("wide 2;row dw;" + SPREAD);
-        C.refused(stuck, 6, "by a STUCK one", stuck::ancestor);
+        R.on("town: wide 3;row ldl;" + SPREAD);
+        R.gives("none", "ancestors", 0);
+        R.refuses("an ORPHAN", 6, "ancestor");
+        R.on("town: wide 2;row ld;");
+        R.gives("without RULES", "ancestors", 0);
+        R.refuses("without RULES", 6, "ancestor");
+        R.on("town: wide 2;row dw;" + SPREAD);
+        R.refuses("by a STUCK one", 6, "ancestor");
+        R.on("town: wide 5;row ddddd;row ddddd;row ddddd;row ddddd;row ddddd;row ddddl;" + SPREAD);
+        R.refuses("by the last PLACE", 6, "ancestor");
     }
 
     private static void largeAncestors() {
-        WindowHill h = Checks.hill(LARGE + "rule a;rule b stays 0 1 2 3 4;rule c born 0 1 2 3 4;");
-        C.asked(h, "all become dark", h::ancestors, 1 << 30);
-        C.asked(h, "FIRST", h::ancestor, 0);
-        h.paint(123456789);
-        C.asked(h, "none becomes so", h::ancestors, 0);
-        h.mayor(1);
-        C.asked(h, "itself", h::ancestors, 1);
-        C.asked(h, "FIRST", h::ancestor, 123456789);
-        h.mayor(2);
-        C.asked(h, "the turned one", h::ancestors, 1);
-        C.asked(h, "FIRST", h::ancestor, ALL - 123456789);
+        String town = LARGE + "rule a;" + STAYS + "rule c born 0 1 2 3 4;";
+        R.on(town);
+        ancestors("all 2^30 become dark", 1 << 30, 0);
+        R.on(town, "paint 123456789");
+        R.gives("none becomes so", "ancestors", 0);
+        R.on(town, "paint 123456789", "mayor 1");
+        ancestors("itself", 1, 123456789);
+        R.on(town, "paint 123456789", "mayor 2");
+        ancestors("the turned one", 1, ALL - 123456789);
+        R.on(town, "paint 0", "mayor 2");
+        ancestors("all lit", 1, ALL);
+    }
+
+    private static void stills(String why, long many, long first) {
+        R.gives(why, "stills", many);
+        R.gives(why + ": the least", "firstStill", first);
     }
 
     private static void stills() {
-        WindowHill h = Checks.hill(MIDDLE + SPREAD);
-        C.asked(h, "dark or all lit", h::stills, 2);
-        C.asked(h, "least", h::firstStill, 0);
-        WindowHill born = Checks.hill("wide 1;row d;row d;row d;rule a born 0 stays 0;");
-        C.asked(born, "ends lit or the middle", born::stills, 2);
-        C.asked(born, "least", born::firstStill, 2);
-        WindowHill none = Checks.hill("wide 1;row d;rule a born 0;");
-        C.asked(none, "none", none::stills, 0);
-        C.refused(none, 6, "none", none::firstStill);
-        WindowHill all = Checks.hill(LARGE + "rule b stays 0 1 2 3 4;");
-        C.asked(all, "all", all::stills, 1 << 30);
-        C.asked(all, "least", all::firstStill, 0);
-        all.bend(0, 31, 31);
-        C.asked(all, "all lit", all::stills, 1);
-        C.asked(all, "least", all::firstStill, ALL);
-        WindowHill stuck = Checks.hill("wide 3;row wxl;");
-        C.asked(stuck, "without RULES", stuck::stills, 1);
-        C.asked(stuck, "least", stuck::firstStill, 1);
+        R.on(MIDDLE + SPREAD);
+        stills("dark or all lit", 2, 0);
+        R.on("town: wide 1;row d;row d;row d;rule a born 0 stays 0;");
+        stills("both ends or the middle", 2, 2);
+        R.on("town: wide 1;row d;rule a born 0;");
+        R.gives("none", "stills", 0);
+        R.refuses("none", 6, "firstStill");
+        R.on("town: wide 3;row wxl;");
+        stills("without RULES", 1, 1);
+        R.on("town: wide 3;row wnw;");
+        stills("no lamp that is not STUCK", 1, 5);
+        R.on("town: wide 3 ring;row ddd;rule a stays 2;");
+        stills("by a RING", 2, 0);
+    }
+
+    private static void largeStills() {
+        R.on(LARGE + STAYS);
+        stills("all 2^30", 1 << 30, 0);
+        R.on(LARGE + STAYS, "bend 0 31 31");
+        stills("all lit", 1, ALL);
+        R.on(LARGE + STAYS, "bend 0 0 0", "paint 77");
+        stills("dark", 1, 0);
     }
 
     private static void pictures() {
-        WindowHill one = new WindowHill();
-        C.asked(one, "one house", one::pictures, 2);
-        WindowHill h = Checks.hill("wide 5;row dlnwx;row ddddd;");
-        C.asked(h, "7 lamps", h::pictures, 128);
-        WindowHill all = Checks.hill(LARGE);
-        C.asked(all, "30", all::pictures, 1 << 30);
-        WindowHill none = Checks.hill("wide 3;row nwx;");
-        C.asked(none, "none", none::pictures, 1);
+        R.on();
+        R.gives("one house", "pictures", 2);
+        R.on("town: wide 5;row dlnwx;row ddddd;");
+        R.gives("7 lamps that are not STUCK", "pictures", 128);
+        R.on(LARGE);
+        R.gives("30", "pictures", 1 << 30);
+        R.on("town: wide 3;row nwx;");
+        R.gives("none", "pictures", 1);
     }
 
-    private static void signal(WindowHill h, int x, int y, int nights, int many, int set) {
-        C.asked(h, "signal, how many", () -> h.signal(x, y, nights, 0), many);
-        C.asked(h, "signal, the set", () -> h.signal(x, y, nights, 1), set);
+    private static void signal(String why, String call, int many, int set) {
+        R.gives(why, "signal " + call + " 0", many);
+        R.gives(why + ": the set", "signal " + call + " 1", set);
     }
 
     private static void signal() {
-        WindowHill h = Checks.hill(DARK + SPREAD + "rule one born 1;rule three born 3;rule four born 4;");
-        signal(h, 0, 0, 2, 1, 1);
-        signal(h, 2, 2, 1, 1, 32);
-        signal(h, 2, 2, 2, 1, 4);
-        signal(h, 2, 2, 4, 1, 1);
-        signal(h, 2, 2, 30, 1, 1);
-        signal(h, 2, 2, 0, 1, 256);
-        h.mayor(1);
-        signal(h, 0, 0, 1, 1, 2);
-        h.mayor(2);
-        signal(h, 1, 0, 1, 3, 1 + 4 + 16);
-        signal(h, 1, 1, 1, 3, 2 + 8 + 32);
-        h.mayor(3);
-        C.refused(h, 6, "not by three", () -> h.signal(1, 1, 1, 0));
-        C.refused(h, 6, "by none", () -> h.signal(0, 0, 1, 1));
-        h.turn(1, 0);
-        signal(h, 1, 1, 1, 3, 8 + 32 + 128);
-        signal(h, 1, 0, 0, 0, 0);
-        WindowHill stuck = Checks.hill("wide 3;row wxd;rule a born 1 stays 0;");
-        signal(stuck, 0, 0, 30, 0, 0);
-        C.refused(stuck, 6, "always dark", () -> stuck.signal(1, 0, 5, 0));
-        signal(stuck, 2, 0, 5, 1, 4);
-        WindowHill two = Checks.hill("wide 3;row dld;row dld;rule a born 2;");
-        // (0,0) wants two lit beside and below: (0,1) has to be turned
-        signal(two, 0, 0, 1, 1, 8);
-        signal(two, 1, 0, 1, 2, 1 + 2);
+        R.on(DARK + SPREAD);
+        signal("0 NIGHTS", "2 2 0", 1, 256);
+        signal("1 NIGHT", "2 2 1", 1, 32);
+        signal("2 NIGHTS", "0 0 2", 1, 1);
+        signal("2 NIGHTS, the least", "2 2 2", 1, 4);
+        signal("4 NIGHTS, the least", "2 2 4", 1, 1);
+        signal("30 NIGHTS", "2 2 30", 1, 1);
+        R.on(DARK + "rule one born 1;");
+        signal("it must be another one", "0 0 1", 1, 2);
+        R.on(DARK + "rule three born 3;");
+        signal("by three", "1 0 1", 3, 1 + 4 + 16);
+        signal("by three of four, the least", "1 1 1", 3, 2 + 8 + 32);
+        R.on(DARK + "rule four born 4;", "turn 1 0");
+        signal("three more than there are", "1 1 1", 3, 8 + 32 + 128);
+        signal("lit already", "1 0 0", 0, 0);
+        R.on("town: wide 3;row wxd;rule a born 1 stays 0;");
+        signal("always lit", "0 0 30", 0, 0);
+        signal("a STUCK one can't be turned", "2 0 5", 1, 4);
+        R.on("town: wide 3;row dld;row dld;rule a born 2;");
+        signal("two lit wanted, one is", "0 0 1", 1, 8);
+        signal("itself and one more", "1 0 1", 2, 1 + 2);
     }
 
-    private static void signalWrong() {
-        WindowHill h = Checks.hill("wide 3;row dxn;row ddd;");
-        int[][] wrong = {{1, -1, 0, 0, 0}, {1, 3, 0, 0, 0}, {1, 0, -1, 0, 0}, {1, 0, 2, 0, 0}, {1, 0, 0, -1, 0},
-            {1, 0, 0, 31, 0}, {1, 0, 0, 0, -1}, {1, 0, 0, 0, 2}, {1, 2, 0, 31, 0}, {7, 2, 0, 0, 0}, {7, 2, 0, 30, 1},
-            {6, 1, 0, 0, 0}, {6, 0, 0, 1, 1}};
-        for (int[] w : wrong) {
-            C.refused(h, w[0], "signal " + w[1] + " " + w[2] + " " + w[3] + " " + w[4],
-                () -> h.signal(w[1], w[2], w[3], w[4]));
-        }
+    private static void signalOfSeveral() {
+        R.on(DARK + "rule a;", "bend 0 16 2", "paint 489");
+        signal("32 and 64 are less than 8 and 256", "1 2 3", 2, 96);
+        R.on(DARK + "rule a;", "bend 0 4 8", "paint 365");
+        signal("16, 64 and 128 are less than 8, 128 and 256", "1 2 2", 3, 208);
+        R.on("town: wide 2;row ld;rule a stays 0;");
+        signal("fewest: none", "0 0 1", 0, 0);
+    }
+
+    private static void signalLarge() {
+        R.on(LARGE + "rule three born 3;");
+        signal("the last three", "3 5 1", 3, 1 << 23 | 1 << 27 | 1 << 29);
+        signal("the last PLACE", "4 5 0", 1, 1 << 29);
+        signal("the first PLACE", "0 0 0", 1, 1);
+        R.on(LARGE + "rule two born 2;");
+        signal("the last two", "4 5 1", 2, 1 << 24 | 1 << 28);
+        R.on(LARGE + "rule four born 4;");
+        R.refuses("four would do", 6, "signal 3 4 1 0");
+        R.on(LAST + "rule keep stays 0;");
+        signal("the last alone can be turned", "4 5 30", 1, 1 << 29);
+    }
+
+    private static void signalRefused() {
+        R.on(Rows.TAPED);
+        R.refuses("x below 0", 1, "signal -1 0 0 0");
+        R.refuses("x below 0 of a later ROW", 1, "signal -1 1 0 0");
+        R.refuses("x is WIDE", 1, "signal 3 0 0 0");
+        R.refuses("y below 0", 1, "signal 0 -1 0 0");
+        R.refuses("y is ROWS", 1, "signal 0 2 0 0");
+        R.refuses("NIGHTS below 0", 1, "signal 0 0 -1 0");
+        R.refuses("31 NIGHTS", 1, "signal 0 0 31 0");
+        R.refuses("what below 0", 1, "signal 0 0 0 -1");
+        R.refuses("what above 1", 1, "signal 0 0 0 2");
+        R.refuses("the largest", 1, "signal 0 0" + MAX + MAX);
+        R.refuses("the least", 1, "signal" + MIN + MIN + " 0 0");
+        R.refuses("no house", 7, "signal 2 0 0 0");
+        R.refuses("1 ahead of 7", 1, "signal 2 0 31 0");
+        R.refuses("always dark", 6, "signal 1 1 0 0");
+        R.refuses("always dark, 30 NIGHTS", 6, "signal 1 1 30 1");
+        R.refuses("1 ahead of 6", 1, "signal 1 1 0 2");
+        R.on("town: wide 3;row dxn;row ddd;");
+        R.refuses("7 ahead of 6", 7, "signal 2 0 1 0");
+        R.refuses("without RULES", 6, "signal 0 0 1 1");
+        R.gives("without RULES, 0 NIGHTS", "signal 0 0 0 0", 1);
     }
 
     private static void spoils() {
-        WindowHill h = Checks.hill(DARK + SPREAD);
-        C.asked(h, "0", () -> h.spoils(1, 1, 0), 1);
-        C.asked(h, "1", () -> h.spoils(1, 1, 1), 5);
-        C.asked(h, "2", () -> h.spoils(1, 1, 2), 9);
-        C.asked(h, "corner", () -> h.spoils(0, 0, 1), 3);
-        C.asked(h, "30", () -> h.spoils(0, 0, 30), 9);
-        h.paint(511);
-        C.asked(h, "nothing", () -> h.spoils(0, 0, 1), 0);
-        C.asked(h, "the lit one itself", () -> h.spoils(0, 0, 0), 1);
-        C.asked(h, "the first lit one", () -> h.worst(0, 1), 1);
-        WindowHill odd = Checks.hill("wide 3;row dxn;row wdd;");
-        int[][] wrong = {{1, -1, 0, 0}, {1, 3, 0, 0}, {1, 0, 2, 0}, {1, 0, -1, 0}, {1, 0, 0, -1}, {1, 0, 0, 31},
-            {1, 2, 0, 31}, {7, 1, 0, 0}, {7, 2, 0, 0}, {7, 0, 1, 30}};
-        for (int[] w : wrong) {
-            C.refused(odd, w[0], "spoils " + w[1] + " " + w[2] + " " + w[3], () -> odd.spoils(w[1], w[2], w[3]));
-        }
+        R.on(DARK + SPREAD);
+        R.gives("0 NIGHTS: itself", "spoils 1 1 0", 1);
+        R.gives("1 NIGHT", "spoils 1 1 1", 5);
+        R.gives("2 NIGHTS", "spoils 1 1 2", 9);
+        R.gives("a corner", "spoils 0 0 1", 3);
+        R.gives("30 NIGHTS", "spoils 2 2 30", 9);
+        R.on(DARK + SPREAD, "paint 511");
+        R.gives("nothing", "spoils 0 0 1", 0);
+        R.gives("a lit one itself", "spoils 0 0 0", 1);
+        R.on(LAST + "rule a stays 0;");
+        R.gives("the last PLACE", "spoils 4 5 30", 1);
+        R.on("town: wide 2;row dd;rule a born 0;");
+        R.gives("those that go dark count, too", "spoils 0 0 1", 2);
+        R.on("town: wide 2;row dd;");
+        R.gives("without RULES", "spoils 0 0 1", 0);
+    }
+
+    private static void spoilsRefused() {
+        R.on(Rows.TAPED);
+        R.refuses("x below 0", 1, "spoils -1 0 0");
+        R.refuses("x below 0 of a later ROW", 1, "spoils -1 1 0");
+        R.refuses("x is WIDE", 1, "spoils 3 0 0");
+        R.refuses("y below 0", 1, "spoils 0 -1 0");
+        R.refuses("y is ROWS", 1, "spoils 0 2 0");
+        R.refuses("NIGHTS below 0", 1, "spoils 0 0 -1");
+        R.refuses("31 NIGHTS", 1, "spoils 0 0 31");
+        R.refuses("the largest", 1, "spoils 0 0" + MAX);
+        R.refuses("the least", 1, "spoils" + MIN + MIN + " 0");
+        R.refuses("no house", 7, "spoils 2 0 0");
+        R.refuses("always lit", 7, "spoils 0 1 0");
+        R.refuses("always dark", 7, "spoils 1 1 30");
+        R.refuses("1 ahead of 7", 1, "spoils 2 0 31");
     }
 
     private static void worst() {
-        WindowHill h = Checks.hill(DARK + SPREAD);
-        C.asked(h, "the first of all", () -> h.worst(0, 0), 0);
-        C.asked(h, "one", () -> h.worst(0, 1), 1);
-        C.asked(h, "the middle", () -> h.worst(1, 0), 4);
-        C.asked(h, "five", () -> h.worst(1, 1), 5);
-        C.asked(h, "the first", () -> h.worst(30, 0), 0);
-        C.asked(h, "nine", () -> h.worst(30, 1), 9);
-        WindowHill odd = Checks.hill("wide 3;row xnw;row xdl;");
-        C.asked(odd, "the first that is not STUCK", () -> odd.worst(0, 0), 4);
-        C.asked(odd, "none spoils", () -> odd.worst(1, 0), 4);
-        C.asked(odd, "nothing", () -> odd.worst(1, 1), 0);
-        C.refused(h, 1, "nights", () -> h.worst(-1, 0));
-        C.refused(h, 1, "nights", () -> h.worst(31, 0));
-        C.refused(h, 1, "what", () -> h.worst(0, -1));
-        C.refused(h, 1, "what", () -> h.worst(0, 2));
-        WindowHill stuck = Checks.hill("wide 3;row wxn;");
-        C.refused(stuck, 6, "all STUCK", () -> stuck.worst(0, 0));
-        C.refused(stuck, 1, "1 ahead of 6", () -> stuck.worst(31, 0));
+        R.on(DARK + SPREAD);
+        R.gives("0 NIGHTS: of all the first", "worst 0 0", 0);
+        R.gives("0 NIGHTS", "worst 0 1", 1);
+        R.gives("the middle", "worst 1 0", 4);
+        R.gives("five", "worst 1 1", 5);
+        R.gives("30 NIGHTS: of all the first", "worst 30 0", 0);
+        R.gives("30 NIGHTS", "worst 30 1", 9);
+        R.on("town: wide 3;row xnw;row xdl;");
+        R.gives("the first that is not STUCK", "worst 0 0", 4);
+        R.gives("none spoils: the first", "worst 1 0", 4);
+        R.gives("none spoils", "worst 1 1", 0);
+        R.on(LAST);
+        R.gives("the last PLACE", "worst 0 0", 29);
+        R.gives("the last PLACE", "worst 0 1", 1);
+        R.on("town: wide 3;row wxn;");
+        R.refuses("no lamp that is not STUCK", 6, "worst 0 0");
+        R.refuses("no lamp that is not STUCK", 6, "worst 30 1");
+        R.refuses("1 ahead of 6", 1, "worst 31 0");
+        R.on(Rows.TAPED);
+        R.refuses("NIGHTS below 0", 1, "worst -1 0");
+        R.refuses("31 NIGHTS", 1, "worst 31 0");
+        R.refuses("what below 0", 1, "worst 0 -1");
+        R.refuses("what above 1", 1, "worst 0 2");
+        R.refuses("the largest", 1, "worst" + MAX + " 0");
+        R.refuses("the least", 1, "worst" + MIN + " 0");
     }
 
-    private static void mend(WindowHill h, long picture, int unlike, int set) {
-        C.asked(h, "mend " + picture, () -> h.mend(picture, 0), unlike);
-        C.asked(h, "mend " + picture + ", the set", () -> h.mend(picture, 1), set);
+    private static void mend(String why, long picture, int unlike, int set) {
+        R.gives(why, "mend " + picture + " 0", unlike);
+        R.gives(why + ": the set", "mend " + picture + " 1", set);
     }
 
     private static void mend() {
-        WindowHill h = Checks.hill(DARK + SPREAD);
-        mend(h, 186, 0, 16);
-        mend(h, 0, 0, 0);
-        mend(h, 1, 1, 0);
-        mend(h, 511, 2, 4 + 8);
-        WindowHill row = Checks.hill("wide 3;row ddd;" + SPREAD);
-        mend(row, 3, 0, 1);
-        mend(row, 7, 0, 2);
-        mend(row, 5, 1, 2);
-        WindowHill two = Checks.hill("wide 2;row dd;" + SPREAD);
-        mend(two, 3, 0, 1);
-        mend(two, 3 + 4 + 1024, 0, 1);
-        WindowHill stays = Checks.hill("wide 4;row lldd;rule a stays 0 1 2 3 4;");
-        mend(stays, 3, 0, 0);
-        mend(stays, 1, 0, 2);
-        mend(stays, 6, 0, 1 + 4);
-        mend(stays, 12, 2, 1 + 2);
-        WindowHill odd = Checks.hill("wide 3;row xnw;row ddd;");
-        mend(odd, 7, 2, 0);
-        mend(odd, 63, 5, 0);
-        mend(odd, ALL, 5, 0);
-        C.refused(h, 1, "-1", () -> h.mend(-1, 0));
-        C.refused(h, 1, "2^30", () -> h.mend(1 << 30, 0));
-        C.refused(h, 1, "2^32", () -> h.mend(1L << 32, 0));
-        C.refused(h, 1, "what", () -> h.mend(0, -1));
-        C.refused(h, 1, "what", () -> h.mend(0, 2));
+        R.on(DARK + SPREAD);
+        mend("by one", 186, 0, 16);
+        mend("by none", 0, 0, 0);
+        mend("of several that of the fewest lamps", 1, 1, 0);
+        mend("by two, the least as a number", 511, 2, 4 + 8);
+        R.on("town: wide 3;row ddd;" + SPREAD);
+        mend("one in a row", 3, 0, 1);
+        mend("one is fewer than two", 7, 0, 2);
+        mend("never so", 5, 1, 2);
+        R.on("town: wide 2;row dd;" + SPREAD);
+        mend("the least of two", 3, 0, 1);
+        mend("what is beyond does not count", 3 + 4 + 1024, 0, 1);
+        R.on("town: wide 4;row lldd;" + STAYS);
+        mend("as it is", 3, 0, 0);
+        mend("by one", 1, 0, 2);
+        mend("by two", 6, 0, 1 + 4);
+        mend("not by three", 12, 2, 1 + 2);
+        R.on("town: wide 3;row xnw;row ddd;");
+        mend("a lamp told where no house is counts", 7, 2, 0);
+        mend("as much as can be", ALL, 5, 0);
+        R.on(Rows.TAPED);
+        R.refuses("below 0", 1, "mend -1 0");
+        R.refuses("above 1,073,741,823", 1, "mend 1073741824 0");
+        R.refuses("it would be 0 if it were cut", 1, "mend 4294967296 0");
+        R.refuses("the largest", 1, "mend " + Long.MAX_VALUE + " 0");
+        R.refuses("the least", 1, "mend " + Long.MIN_VALUE + " 0");
+        R.refuses("what below 0", 1, "mend 0 -1");
+        R.refuses("what above 1", 1, "mend 0 2");
+    }
+
+    private static void mendLarge() {
+        R.on(LARGE + STAYS);
+        mend("the last two", 3 << 28, 0, 3 << 28);
+        mend("the first and the last", 1 << 29 | 1, 0, 1 << 29 | 1);
+        mend("all but two", ALL, 28, 3);
+        R.on(LAST + STAYS);
+        mend("the last alone", ALL, 29, 1 << 29);
     }
 
     private static void unlike() {
-        WindowHill h = Checks.hill("wide 2;row ln;row wx;");
-        int[][] due = {{5, 0}, {7, 1}, {15, 2}, {0, 2}, {10, 4}, {5 + 16 + 1024, 0}, {ALL, 2}, {ALL - 15, 2}};
-        for (int[] d : due) {
-            C.asked(h, "unlike " + d[0], () -> h.unlike(d[0]), d[1]);
-        }
-        for (long wrong : new long[] {-1, 1 << 30, 1L << 32, Long.MAX_VALUE, Long.MIN_VALUE}) {
-            C.refused(h, 1, "unlike " + wrong, () -> h.unlike(wrong));
-        }
+        R.on("town: wide 2;row ln;row wx;");
+        R.gives("none", "unlike 5", 0);
+        R.gives("where no house is", "unlike 7", 1);
+        R.gives("where one is always dark", "unlike 13", 1);
+        R.gives("nothing told", "unlike 0", 2);
+        R.gives("all four", "unlike 10", 4);
+        R.gives("what is beyond does not count", "unlike " + (5 + 16 + 1024), 0);
+        R.gives("as much as can be told", "unlike " + ALL, 2);
+        R.gives("all that is beyond", "unlike " + (ALL - 15), 2);
+        R.on(LARGE);
+        R.gives("all 30", "unlike " + ALL, 30);
+        R.on(Rows.TAPED);
+        R.refuses("below 0", 1, "unlike -1");
+        R.refuses("above 1,073,741,823", 1, "unlike 1073741824");
+        R.refuses("it would be 0 if it were cut", 1, "unlike 4294967296");
+        R.refuses("the largest", 1, "unlike " + Long.MAX_VALUE);
+        R.refuses("the least", 1, "unlike " + Long.MIN_VALUE);
     }
 
-    private static void seenAll(WindowHill h, String dark, String lit) {
+    private static void seenAll(String why, String dark, String lit) {
         for (int k = 0; k < 5; k++) {
-            int n = k;
-            C.asked(h, "seen dark " + k, () -> h.seen(0, n), dark.charAt(k) - '0');
-            C.asked(h, "seen lit " + k, () -> h.seen(1, n), lit.charAt(k) - '0');
+            R.gives(why + ": dark, with so many", "seen 0 " + k, dark.charAt(k) - '0');
+            R.gives(why + ": lit, with so many", "seen 1 " + k, lit.charAt(k) - '0');
         }
     }
 
     private static void seen() {
-        WindowHill h = Checks.hill(MIDDLE + SPREAD);
-        h.ahead(5);
-        h.oil(5);
-        seenAll(h, "00000", "00000");
-        h.night(1);
-        seenAll(h, "12000", "20000");
-        h.night(1);
-        seenAll(h, "12200", "22002");
-        WindowHill odd = Checks.hill("wide 3;row wdx;row nld;rule a born 1 2 stays 3;");
-        odd.night(1);
-        seenAll(odd, "02200", "10000");
-        int[][] wrong = {{-1, 0}, {2, 0}, {0, -1}, {0, 5}};
-        for (int[] w : wrong) {
-            C.refused(h, 1, "seen", () -> h.seen(w[0], w[1]));
-        }
+        R.on(MIDDLE + SPREAD, "ahead 5", "oil 5", "far 7", "brightest 9", "again 0", "walks 0", "next 0", "spoils 1 1 3");
+        seenAll("nothing by what is AHEAD", "00000", "00000");
+        R.on(MIDDLE + SPREAD, "turn 0 0", "paint 16", "elect");
+        seenAll("nothing by hand", "00000", "00000");
+        R.on(MIDDLE + SPREAD, "night 1");
+        seenAll("one NIGHT", "12000", "20000");
+        R.on(MIDDLE + SPREAD, "night 2");
+        seenAll("two NIGHTS", "12200", "22002");
+        R.on(MIDDLE + SPREAD, "night 3");
+        seenAll("all lit", "12200", "22222");
+        R.on(MIDDLE + SPREAD, "year: night 1;", "live 0");
+        seenAll("a NIGHT of a YEAR", "12000", "20000");
+        R.on(MIDDLE + SPREAD, "year: night 1;", "mean 0 1");
+        seenAll("none by a mean", "00000", "00000");
+        R.on("town: wide 3;row wdx;row nld;rule a born 1 2 stays 3;", "night 1");
+        seenAll("not of STUCK ones, but by them", "02200", "10000");
     }
 
-    private static void bothSeen() {
-        WindowHill h = Checks.hill("wide 1;row d;rule a;");
-        h.night(1);
-        seenAll(h, "10000", "00000");
-        h.bend(0, 1, 1);
-        h.night(1);
-        seenAll(h, "30000", "00000");
-        C.asked(h, "RULES LEFT", h::rulesLeft, 0);
-        C.asked(h, "fits", h::fits, 0);
-        h.night(1);
-        seenAll(h, "30000", "20000");
-        C.asked(h, "RULES LEFT", h::rulesLeft, 0);
-        C.done(h, "forget", h::forget, 2);
-        C.asked(h, "RULES LEFT", h::rulesLeft, 1024);
+    private static void seenBoth() {
+        R.on("town: wide 1;row d;rule a;", "night 1");
+        seenAll("dark", "10000", "00000");
+        R.on("town: wide 1;row d;rule a;", "night 1", "bend 0 1 1", "night 1");
+        seenAll("of a dark one both, by whatever RULE", "30000", "00000");
+        R.on("town: wide 1;row d;rule a;", "night 1", "bend 0 1 1", "night 1", "night 1");
+        seenAll("and lit", "30000", "20000");
+        R.on("town: wide 1;row l;rule a stays 0;", "night 1", "bend 0 0 0", "night 1");
+        seenAll("of a lit one both", "00000", "30000");
+        R.on("town: wide 1;row l;rule a;rule b stays 0;", "night 1", "turn 0 0", "mayor 1", "night 1");
+        seenAll("of a lit one both, by two RULES", "00000", "30000");
+    }
+
+    private static void seenRefused() {
+        R.on(Rows.TAPED);
+        R.refuses("state below 0", 1, "seen -1 0");
+        R.refuses("state above 1", 1, "seen 2 0");
+        R.refuses("NEIGHBOURS below 0", 1, "seen 0 -1");
+        R.refuses("5 NEIGHBOURS", 1, "seen 0 5");
+        R.refuses("below 0 of lit ones", 1, "seen 1 -1");
+        R.refuses("5 of lit ones", 1, "seen 1 5");
+        R.refuses("the largest", 1, "seen" + MAX + MAX);
+        R.refuses("the least", 1, "seen" + MIN + MIN);
     }
 
     private static void rulesLeft() {
-        WindowHill h = Checks.hill(MIDDLE + SPREAD);
-        C.asked(h, "all", h::rulesLeft, 1024);
-        h.night(1);
-        C.asked(h, "three known", h::rulesLeft, 128);
-        h.night(1);
-        C.asked(h, "six known", h::rulesLeft, 16);
+        R.on(MIDDLE + SPREAD);
+        R.gives("all that there could be", "rulesLeft", 1024);
+        R.on(MIDDLE + SPREAD, "night 1");
+        R.gives("three are known", "rulesLeft", 128);
+        R.on(MIDDLE + SPREAD, "night 2");
+        R.gives("six are known", "rulesLeft", 16);
+        R.on(MIDDLE + SPREAD, "night 3", "paint 170", "night 1", "paint 493", "night 1", "paint 325", "night 1",
+            "paint 509", "night 1");
+        R.gives("all are known", "rulesLeft", 1);
+        R.on("town: wide 1;row d;rule a;", "night 1", "bend 0 1 1", "night 1");
+        R.gives("both were SEEN of dark ones", "rulesLeft", 0);
+        R.on("town: wide 1;row l;rule a;", "night 1", "bend 0 0 1", "turn 0 0", "night 1");
+        R.gives("both were SEEN of lit ones", "rulesLeft", 0);
     }
 
     private static void fits() {
-        WindowHill h = Checks.hill(MIDDLE + SPREAD + "rule b;rule c born 1 stays 0;rule d born 0 1 stays 0;");
-        C.asked(h, "all", h::fits, 15);
-        h.night(1);
-        C.asked(h, "a, c", h::fits, 5);
-        h.bend(1, 2, 1);
-        C.asked(h, "b bent", h::fits, 7);
-        h.bend(0, 0, 31);
-        C.asked(h, "a bent", h::fits, 6);
-        WindowHill none = Checks.hill(DARK);
-        C.asked(none, "no RULES", none::fits, 0);
+        String town = MIDDLE + SPREAD + "rule b;rule c born 1 stays 0;rule d born 0 1 stays 0;";
+        R.on(town);
+        R.gives("all", "fits", 15);
+        R.on(town, "night 1");
+        R.gives("the first and the third", "fits", 5);
+        R.on(town, "night 1", "bend 1 2 1");
+        R.gives("the second is bent so", "fits", 7);
+        R.on(town, "night 1", "bend 0 0 31");
+        R.gives("the first is bent so", "fits", 4);
+        R.on(DARK + "rule a;rule b;", "paint 170", "bend 0 16 0", "night 1", "bend 0 0 0");
+        R.gives("dark ones with 4 were SEEN lit", "fits", 0);
+        R.on(DARK + "rule a;rule b;", "paint 186", "bend 0 0 16", "night 1");
+        R.gives("lit ones with 4 were SEEN lit", "fits", 1);
+        R.on("town: wide 1;row d;rule a;", "night 1", "bend 0 1 1", "night 1");
+        R.gives("both were SEEN", "fits", 0);
+        R.on(DARK);
+        R.gives("no RULES", "fits", 0);
     }
 
     private static void forget() {
-        WindowHill h = Checks.hill(MIDDLE + SPREAD);
-        C.done(h, "nothing", h::forget, 0);
-        h.night(1);
-        C.done(h, "three", h::forget, 3);
-        seenAll(h, "00000", "00000");
-        C.done(h, "nothing", h::forget, 0);
-        C.due("NIGHT stays", h.told(7), 1);
-        C.due("OIL stays", h.told(8), 1);
+        R.on(MIDDLE + SPREAD);
+        R.gives("nothing was SEEN", "forget", 0);
+        R.on(MIDDLE + SPREAD, "night 1");
+        R.gives("three", "forget", 3, "rulesLeft = 1024", "seen 0 0 = 0", "seen 0 1 = 0", "seen 1 0 = 0", "forget = 0",
+            "told 7 = 1", "told 8 = 1", "picture = 186");
+        R.on(MIDDLE + SPREAD, "night 3");
+        R.gives("eight", "forget", 8, "seen 1 4 = 0", "rulesLeft = 1024");
+        R.on("town: wide 1;row d;rule a;", "night 1", "bend 0 1 1", "night 2");
+        R.gives("both counts once", "forget", 2, "rulesLeft = 1024");
     }
 
     private static void shows() {
-        WindowHill h = Checks.hill(MIDDLE + SPREAD);
-        C.asked(h, "three", h::shows, 3);
-        h.night(1);
-        C.asked(h, "three others", h::shows, 3);
-        h.night(1);
-        C.asked(h, "lit with 2, 3", h::shows, 2);
-        h.night(1);
-        C.asked(h, "nothing", h::shows, 0);
-        h.bend(0, 0, 0);
-        C.asked(h, "it was seen, though not so", h::shows, 0);
-        h.forget();
-        C.asked(h, "with 2, 3, 4", h::shows, 3);
-        WindowHill stuck = Checks.hill("wide 3;row wdx;");
-        C.asked(stuck, "of those that are not STUCK", stuck::shows, 1);
+        R.on(MIDDLE + SPREAD);
+        R.gives("dark with 0, 1, lit with 0", "shows", 3);
+        R.on(MIDDLE + SPREAD, "night 1");
+        R.gives("three others", "shows", 3);
+        R.on(MIDDLE + SPREAD, "night 2");
+        R.gives("lit with 2, 3", "shows", 2);
+        R.on(MIDDLE + SPREAD, "night 3");
+        R.gives("nothing", "shows", 0);
+        R.on(MIDDLE + SPREAD, "night 3", "bend 0 0 0");
+        R.gives("it was SEEN, though not so", "shows", 0);
+        R.on(MIDDLE + SPREAD, "night 3", "forget");
+        R.gives("lit with 2, 3, 4", "shows", 3);
+        R.on("town: wide 3;row wdx;");
+        R.gives("of those that are not STUCK", "shows", 1);
+        R.on("town: wide 3;row wnx;");
+        R.gives("none is not STUCK", "shows", 0);
     }
 
     /** By RULE 0 none, by RULE 1 five, by RULE 2 one would be lit. */
@@ -341,137 +468,194 @@ public final class WhatTests {
         + "citizen h likes 7 to 9;citizen i likes 2 to 2;";
 
     private static void vote() {
-        WindowHill h = Checks.hill(VOTERS);
-        int[] due = {1, 2, 0, 1, 1, 2};
-        for (int k = 0; k < 6; k++) {
-            int citizen = k;
-            C.asked(h, "vote " + k, () -> h.vote(citizen), due[k]);
-        }
-        C.refused(h, 1, "-1", () -> h.vote(-1));
-        C.refused(h, 1, "6", () -> h.vote(6));
-        WindowHill none = Checks.hill(MIDDLE + "citizen a likes 1 to 2;");
-        C.refused(none, 6, "no RULES", () -> none.vote(0));
-        C.refused(none, 1, "1 ahead of 6", () -> none.vote(1));
-        WindowHill tie = Checks.hill("wide 2;row ld;rule a;rule b born 1 stays 0;citizen c likes 1 to 1;");
-        C.asked(tie, "the first of the nearest", () -> tie.vote(0), 0);
+        R.on(VOTERS);
+        R.gives("5 to 9: as many as the least", "vote 0", 1);
+        R.gives("1 to 1", "vote 1", 2);
+        R.gives("0 to 30: the first", "vote 2", 0);
+        R.gives("3: 5 is as near as 1, the first", "vote 3", 1);
+        R.gives("7 to 9: the nearest", "vote 4", 1);
+        R.gives("2: 1 is the nearest", "vote 5", 2);
+        R.refuses("below 0", 1, "vote -1");
+        R.refuses("more than there are", 1, "vote 6");
+        R.refuses("the largest", 1, "vote" + MAX);
+        R.refuses("the least", 1, "vote" + MIN);
+        R.on(MIDDLE + "rule a;" + SPREAD + "citizen b likes 4 to 5;citizen c likes 0 to 4;citizen d likes 6 to 7;");
+        R.gives("4 to 5: as many as the most", "vote 0", 1);
+        R.gives("0 to 4: one more is too many", "vote 1", 0);
+        R.gives("6 to 7: one less is the nearest", "vote 2", 1);
+        R.on("town: wide 2;row ld;rule a;rule b born 1 stays 0;citizen c likes 1 to 1;");
+        R.gives("above and below, the first of the nearest", "vote 0", 0);
+        R.on("town: wide 2;row ld;rule b born 1 stays 0;rule a;citizen c likes 1 to 1;");
+        R.gives("below and above, the first of the nearest", "vote 0", 0);
+        R.on("town: wide 2;row ld;rule a;rule b stays 0;rule c born 1;citizen d likes 1 to 1;");
+        R.gives("the first of two that are right", "vote 0", 1);
+        R.on(LARGE + "rule a;rule b;rule c;rule d born 0;citizen e likes 30 to 30;");
+        R.gives("the last RULE, 30", "vote 0", 3);
+        R.on(MIDDLE + "citizen a likes 1 to 2;");
+        R.refuses("no RULES", 6, "vote 0");
+        R.refuses("1 ahead of 6", 1, "vote 1");
     }
 
     private static void votes() {
-        WindowHill h = Checks.hill(VOTERS);
-        C.asked(h, "votes 0", () -> h.votes(0), 1);
-        C.asked(h, "votes 1", () -> h.votes(1), 3);
-        C.asked(h, "votes 2", () -> h.votes(2), 2);
-        C.refused(h, 1, "-1", () -> h.votes(-1));
-        C.refused(h, 1, "3", () -> h.votes(3));
-        WindowHill none = Checks.hill(MIDDLE + "rule a;");
-        C.asked(none, "no CITIZENS", () -> none.votes(0), 0);
-        WindowHill rules = Checks.hill(MIDDLE + "citizen a likes 1 to 1;");
-        C.refused(rules, 1, "no RULES", () -> rules.votes(0));
+        R.on(VOTERS);
+        R.gives("one", "votes 0", 1);
+        R.gives("three", "votes 1", 3);
+        R.gives("two", "votes 2", 2);
+        R.refuses("below 0", 1, "votes -1");
+        R.refuses("more than there are", 1, "votes 3");
+        R.refuses("the largest", 1, "votes" + MAX);
+        R.refuses("the least", 1, "votes" + MIN);
+        R.on(MIDDLE + "rule a;");
+        R.gives("no CITIZENS", "votes 0", 0);
+        R.on(MIDDLE + "citizen a likes 1 to 1;");
+        R.refuses("no RULES", 1, "votes 0");
+        R.on("town: wide 1;row d;rule a;rule b;rule c;rule d;citizen e likes 0 to 0;citizen f likes 0 to 0;"
+            + "citizen g likes 0 to 0;citizen h likes 0 to 0;citizen i likes 0 to 0;citizen j likes 0 to 0;");
+        R.gives("all six", "votes 0", 6);
+        R.gives("none", "votes 3", 0);
     }
 
     private static void elect() {
-        WindowHill h = Checks.hill(VOTERS);
-        C.done(h, "elect", h::elect, 1);
-        C.due("mayor", h.told(10), 1);
-        C.due("picture", h.picture(), 16);
-        C.due("no NIGHT", h.told(7), 0);
-        C.due("the next one", h.ahead(1), 186);
-        WindowHill tie = Checks.hill(MIDDLE + "rule a stays 0;rule b;" + SPREAD
-            + "citizen c likes 5 to 5;citizen d likes 0 to 0;");
-        C.done(tie, "of several the first", tie::elect, 1);
-        tie.paint(0);
-        C.done(tie, "all would be dark", tie::elect, 0);
-        WindowHill none = Checks.hill(MIDDLE + "rule a;rule b;");
-        none.mayor(1);
-        C.refused(none, 6, "no CITIZENS", none::elect);
-        WindowHill rules = Checks.hill(MIDDLE + "citizen a likes 1 to 1;");
-        C.refused(rules, 6, "no RULES", rules::elect);
+        R.on(VOTERS);
+        R.gives("the most votes", "elect", 1, "told 10 = 1", "picture = 16", "told 7 = 0", "ahead 1 = 186");
+        String tie = MIDDLE + "rule a stays 0;rule b;" + SPREAD + "citizen c likes 5 to 5;citizen d likes 0 to 0;";
+        R.on(tie);
+        R.gives("of several the first", "elect", 1, "told 10 = 1");
+        R.on(tie, "mayor 2", "paint 0");
+        R.gives("all would be dark: the first", "elect", 0, "told 10 = 0");
+        R.on(MIDDLE + "rule a;rule b;", "mayor 1");
+        R.refuses("no CITIZENS", 6, "elect");
+        R.on(MIDDLE + "citizen a likes 1 to 1;");
+        R.refuses("no RULES", 6, "elect");
+        R.on();
+        R.refuses("neither", 6, "elect");
+        R.on(LARGE + "rule a;rule b;rule c;rule d born 0;citizen e likes 30 to 30;");
+        R.gives("the last RULE by one vote", "elect", 3, "told 10 = 3", "night 1 = 30");
     }
 
     private static void reads() {
-        WindowHill h = Checks.hill("wide 3;row lnd;row wxl;");
-        int[][] due = {{0, 0, 1}, {1, 0, 5}, {0, 1, 3}, {1, 1, 0}, {2, 1, 2}};
-        for (int[] d : due) {
-            C.asked(h, "reads " + d[0] + " " + d[1], () -> h.reads(d[0], d[1]), d[2]);
-        }
-        int[][] wrong = {{-1, 0}, {2, 0}, {-1, 1}, {3, 1}, {0, -1}, {0, 2}, {5, 0}};
-        for (int[] w : wrong) {
-            C.refused(h, 1, "reads " + w[0] + " " + w[1], () -> h.reads(w[0], w[1]));
-        }
-        WindowHill large = Checks.hill(LARGE);
-        large.paint(ALL);
-        C.asked(large, "column", () -> large.reads(4, 1), 63);
-        C.asked(large, "row", () -> large.reads(5, 0), 31);
+        R.on("town: wide 3;row lnd;row wxl;");
+        R.gives("the first ROW", "reads 0 0", 1);
+        R.gives("the last ROW", "reads 1 0", 5);
+        R.gives("the first column", "reads 0 1", 3);
+        R.gives("a column without a lit lamp", "reads 1 1", 0);
+        R.gives("the last column", "reads 2 1", 2);
+        R.refuses("a ROW below 0", 1, "reads -1 0");
+        R.refuses("a ROW more than there are", 1, "reads 2 0");
+        R.refuses("a column below 0", 1, "reads -1 1");
+        R.refuses("a column more than there are", 1, "reads 3 1");
+        R.refuses("what below 0", 1, "reads 0 -1");
+        R.refuses("what above 1", 1, "reads 0 2");
+        R.refuses("the largest ROW", 1, "reads" + MAX + " 0");
+        R.refuses("the least column", 1, "reads" + MIN + " 1");
+        R.on(LARGE, "paint " + ALL);
+        R.gives("a column of 6", "reads 4 1", 63);
+        R.gives("a ROW of 5", "reads 5 0", 31);
+        R.refuses("a seventh ROW", 1, "reads 6 0");
+        R.refuses("a sixth column", 1, "reads 5 1");
+        R.on(Rows.TAPED);
+        R.refuses("a ROW more than there are", 1, "reads 2 0");
     }
 
     private static void mirror() {
         String[] are = {"wide 1;row l;", "wide 2;row dd;row ll;", "wide 3;row ldl;row dld;", "wide 3;row wnl;",
-            "wide 5;row lwxwl;row dldln;", "wide 4;row xnnd;"};
+            "wide 5;row lwxwl;row dldln;", "wide 4;row xnnd;", "wide 2;row nd;", "wide 4 ring;row dlld;"};
         for (String town : are) {
-            WindowHill h = Checks.hill(town);
-            C.asked(h, town, h::mirror, 1);
+            R.on("town: " + town);
+            R.gives(town, "mirror", 1);
         }
         String[] not = {"wide 2;row ld;", "wide 3;row ldl;row ldd;", "wide 4;row dldd;", "wide 2;row wn;",
-            "wide 2;row dd;row dd;row dd;row dd;row dd;row dl;"};
+            "wide 2;row dd;row dd;row dd;row dd;row dd;row dl;", "wide 5;row lddll;", "wide 3;row ddl;row ldd;",
+            "wide 2;row ld;row dl;"};
         for (String town : not) {
-            WindowHill h = Checks.hill(town);
-            C.asked(h, town, h::mirror, 0);
+            R.on("town: " + town);
+            R.gives(town, "mirror", 0);
         }
+    }
+
+    private static void heaps(String why, int many, int largest) {
+        R.gives(why, "heaps 0", many);
+        R.gives(why + ": the largest", "heaps 1", largest);
     }
 
     private static void heaps() {
-        WindowHill h = Checks.hill("wide 5;row lldwl;row dndll;row ldddd;");
-        C.asked(h, "how many", () -> h.heaps(0), 3);
-        C.asked(h, "the largest", () -> h.heaps(1), 4);
-        WindowHill dark = Checks.hill("wide 2;row dx;");
-        C.asked(dark, "none", () -> dark.heaps(0), 0);
-        C.asked(dark, "none", () -> dark.heaps(1), 0);
-        WindowHill ring = Checks.hill("wide 3 ring;row ldl;row dll;");
-        C.asked(ring, "by the RING", () -> ring.heaps(0), 1);
-        C.asked(ring, "by the RING", () -> ring.heaps(1), 4);
-        WindowHill snake = Checks.hill("wide 5;row lllll;row ddddl;row lllll;row ldddd;row lllll;row ddddl;");
-        C.asked(snake, "a snake", () -> snake.heaps(1), 18);
-        C.asked(snake, "one", () -> snake.heaps(0), 1);
-        WindowHill board = Checks.hill("wide 5;row ldldl;row dldld;row ldldl;row dldld;row ldldl;row dldld;");
-        C.asked(board, "apart", () -> board.heaps(0), 15);
-        C.asked(board, "apart", () -> board.heaps(1), 1);
-        C.refused(h, 1, "-1", () -> h.heaps(-1));
-        C.refused(h, 1, "2", () -> h.heaps(2));
+        R.on("town: wide 5;row lldwl;row dndll;row ldddd;");
+        heaps("three", 3, 4);
+        R.on("town: wide 2;row dx;");
+        heaps("none is lit", 0, 0);
+        R.on("town: wide 3 ring;row ldl;row dll;");
+        heaps("by the RING", 1, 4);
+        R.on("town: wide 3;row ldl;row dll;");
+        heaps("without one", 2, 3);
+        R.on("town: wide 5 ring;row dddld;row ldddl;row ddldd;");
+        heaps("a RING joins the ends alone", 3, 2);
+        R.on("town: wide 5 ring;row ldddd;row ddddl;row ddldd;");
+        heaps("a RING joins the ends of one ROW", 3, 1);
+        R.on("town: wide 2;row ld;row dl;");
+        heaps("not across a corner", 2, 1);
+        R.on("town: wide 5;row ddddl;row ldddd;");
+        heaps("not from a ROW's end to the next ROW", 2, 1);
+        R.on("town: wide 5;row lllll;row ddddl;row lllll;row ldddd;row lllll;row ddddl;");
+        heaps("a snake", 1, 18);
+        R.on("town: wide 5;row ldldl;row dldld;row ldldl;row dldld;row ldldl;row dldld;");
+        heaps("as many as there can be", 15, 1);
+        R.on(LARGE, "paint " + ALL);
+        heaps("as large as can be", 1, 30);
+        R.on(Rows.TAPED);
+        R.refuses("-1", 1, "heaps -1");
+        R.refuses("2", 1, "heaps 2");
+        R.refuses("the largest", 1, "heaps" + MAX);
+        R.refuses("the least", 1, "heaps" + MIN);
     }
 
     private static void heap() {
-        WindowHill h = Checks.hill("wide 5;row lldwl;row dndll;row ldddd;");
+        R.on("town: wide 5;row lldwl;row dndll;row ldddd;");
         int[][] due = {{0, 0, 2}, {1, 0, 2}, {2, 0, 0}, {3, 0, 4}, {4, 1, 4}, {0, 2, 1}, {0, 1, 0}};
         for (int[] d : due) {
-            C.asked(h, "heap " + d[0] + " " + d[1], () -> h.heap(d[0], d[1]), d[2]);
+            R.gives("of a lamp, 0 of a dark one", "heap " + d[0] + " " + d[1], d[2]);
         }
-        WindowHill ring = Checks.hill("wide 4 ring;row lddl;row dddl;");
-        C.asked(ring, "by the RING, to the left", () -> ring.heap(0, 0), 3);
-        C.asked(ring, "by the RING, to the right", () -> ring.heap(3, 1), 3);
-        WindowHill flat = Checks.hill("wide 4;row lddl;row dddl;");
-        C.asked(flat, "without one", () -> flat.heap(0, 0), 1);
-        int[][] wrong = {{1, -1, 0}, {1, 5, 0}, {1, 0, -1}, {1, 0, 3}, {7, 1, 1}};
-        for (int[] w : wrong) {
-            C.refused(h, w[0], "heap", () -> h.heap(w[1], w[2]));
-        }
+        R.on("town: wide 4 ring;row lddl;row dddl;");
+        R.gives("by the RING, to the left", "heap 0 0", 3);
+        R.gives("by the RING, to the right", "heap 3 1", 3);
+        R.on("town: wide 5 ring;row lddld;row ddddl;row ddldd;");
+        R.gives("ends that are lit are no NEIGHBOURS of all", "heap 2 2", 1);
+        R.gives("an end whose other end is dark", "heap 0 0", 1);
+        R.on("town: wide 4;row lddl;row dddl;");
+        R.gives("without one", "heap 0 0", 1);
+        R.on("town: wide 1;row x;");
+        R.gives("always dark", "heap 0 0", 0);
+        R.on(LARGE, "paint " + ALL);
+        R.gives("all 30, from the last PLACE", "heap 4 5", 30);
+        R.on(Rows.TAPED);
+        R.refuses("x below 0", 1, "heap -1 0");
+        R.refuses("x below 0 of a later ROW", 1, "heap -1 1");
+        R.refuses("x is WIDE", 1, "heap 3 0");
+        R.refuses("y below 0", 1, "heap 0 -1");
+        R.refuses("y is ROWS", 1, "heap 0 2");
+        R.refuses("the largest", 1, "heap" + MAX + MAX);
+        R.refuses("the least", 1, "heap" + MIN + MIN);
+        R.refuses("no house", 7, "heap 2 0");
     }
 
-    private static void companyOf(String town, long top, long bottom) {
-        WindowHill h = Checks.hill(town);
-        C.doneSo(h, town, h::company);
-        C.due(town + " top", h.top(), top);
-        C.due(town + " bottom", h.bottom(), bottom);
+    private static void company(String town, long top, long bottom) {
+        R.on("town: " + town);
+        R.tells(town, "company", top, bottom);
     }
 
     private static void company() {
-        companyOf("wide 3;row lll;", 4, 3);
-        companyOf("wide 3;row ldl;", 0, 1);
-        companyOf("wide 2;row lw;row ll;", 2, 1);
-        companyOf("wide 3 ring;row lll;", 2, 1);
-        companyOf("wide 2;row ll;row ld;row dd;", 4, 3);
-        companyOf("wide 2;row lx;row ll;row dd;row dl;", 1, 1);
-        companyOf("wide 5;row lllll;row lllll;row lllll;row lllll;row lllll;row lllll;", 49, 15);
-        WindowHill dark = Checks.hill("wide 2;row xd;");
-        C.denied(dark, 6, "none is lit", dark::company);
+        company("wide 3;row lll;", 4, 3);
+        company("wide 3;row ldl;", 0, 1);
+        company("wide 1;row w;", 0, 1);
+        company("wide 2;row lw;row ll;", 2, 1);
+        company("wide 3 ring;row lll;", 2, 1);
+        company("wide 2 ring;row ll;", 1, 1);
+        company("wide 2;row ll;row ld;row dd;", 4, 3);
+        company("wide 2;row lx;row ll;row dd;row dl;", 1, 1);
+        company("wide 5;row lllll;row lllll;row lllll;row lllll;row lllll;row lllll;", 49, 15);
+        company("wide 5 ring;row lllll;row lllll;row lllll;row lllll;row lllll;row lllll;", 11, 3);
+        R.on("town: wide 2;row ll;", "company", "paint 0");
+        R.refuses("none is lit", 6, "company");
+        R.on();
+        R.refuses("none is lit, ahead of any FRACTION", 6, "company");
     }
 }
