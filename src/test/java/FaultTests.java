@@ -460,12 +460,13 @@ public final class FaultTests {
         R.gives("blanks alone", "year:  \n ", 0, "live 0 = 0", "status = 0");
         R.gives("one STEP", "year: night 1;", 1, "fault 0 = 0", "fault 1 = -1", "live 0 = 1", "lived 1 = 1");
         R.gives("30 STEPS", "year: " + THIRTY, 30, "live 0 = 30", "lived 1 = 30");
-        R.gives("ends are no STEPS", "year: " + THIRTY.substring(24) + "loop 1;loop 1;loop 1;end;end;end;", 30, "live 0 = 30");
+        R.gives("ends are no STEPS", "year: " + THIRTY.substring(24) + "loop 1;loop 1;loop 1;end;end;end;", 30,
+            "live 0 = 30");
         R.gives("300 bytes", "year: night 3;" + " ".repeat(292), 1, "live 0 = 1", "lived 1 = 3");
         R.gives("3 deep", "year: loop 1;when lit>0;loop 1;night 1;end;end;end;", 4, "live 0 = 4");
         R.gives("3 deep again and again", "year: loop 1;loop 2;loop 3;end;loop 3;end;end;when same;end;end;"
             + "loop 1;loop 1;loop 1;end;end;end;", 8);
-        R.gives("no blanks but between WORDS", "year: turn 0 0;when lamp 0 0;storm 0;end;when lit<3;end;when lit=3;end;", 5);
+        R.gives("no blanks but between WORDS", "year: turn 0 0;when lamp 0 0;storm 0;end;when lit<3;end;", 4);
         R.gives("lines everywhere", "year: \nturn\n0\n0\n;when\nlit\n<\n3\n;\nend\n;\n", 2);
         R.gives("in place of that ahead", "year: birth;", 1, "live 0 = 1", "lived 1 = 0");
     }

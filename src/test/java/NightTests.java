@@ -2,11 +2,10 @@
 public final class NightTests {
     private static final Checks C = new Checks();
     private static final Rows R = new Rows(C);
-    private static final String MAX = " " + Integer.MAX_VALUE;
-    private static final String MIN = " " + Integer.MIN_VALUE;
+    private static final String MAX = Rows.MAX;
+    private static final String MIN = Rows.MIN;
     private static final String MIXED = "town: wide 3;row dln;row wxd;rule a born 1;";
-    /** What is lit stays, and all around it is lit the next night. */
-    private static final String SPREAD = "rule spread born 1 2 3 4 stays 0 1 2 3 4;";
+    private static final String SPREAD = Rows.SPREAD;
     private static final String MIDDLE = "wide 3;row ddd;row dld;row ddd;" + SPREAD;
     private static final String FLIP = "wide 1;row d;rule a born 0;";
     private static final String LARGE = "wide 5;row ddddd;row ddddd;row ddddd;row ddddd;row ddddd;row ddddd;rule a;";

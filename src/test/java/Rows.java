@@ -6,6 +6,11 @@ import java.util.Set;
  * "feed: .." feeds one alone.
  */
 final class Rows {
+    /** The largest and the least int, as the number of a call. */
+    static final String MAX = " " + Integer.MAX_VALUE;
+    static final String MIN = " " + Integer.MIN_VALUE;
+    /** What is lit stays, and all around it is lit the next night. */
+    static final String SPREAD = "rule spread born 1 2 3 4 stays 0 1 2 3 4;";
     /** Much of everything: a TOWN with all kinds of PLACES, a YEAR, three TRAYS, a MARK; the tape is empty. */
     static final String[] RICH = {"town: wide 3 ring;row dln;row wxd;rule a born 1 2 stays 1;rule b stays 0 2;"
         + "citizen c likes 2 to 4;citizen d likes 0 to 0;", "year: turn 0 0;night 2;mayor b;storm 3;birth;",
@@ -16,7 +21,16 @@ final class Rows {
     /** What may change what is there; all others must not. */
     private static final Set<String> CHANGES = Set.of("tray", "write", "pour", "feed", "town", "year", "turn", "paint",
         "paintRows", "copyRows", "mayor", "bend", "night", "forget", "elect", "company", "live", "mean", "mark", "back");
+    private static final Set<String> NO_STATUS = Set.of("status", "top", "bottom", "feed", "fault");
     private static final Set<String> BOOLEANS = Set.of("tray", "write", "pour", "mayor", "bend", "company", "mean");
+    /** TOWNS of WIDTHS and ROWS of their own, with a RING or without. */
+    static final String[] UNLIKE_TOWNS = {"wide 2;row ld;row dl;row ll;" + SPREAD,
+        "wide 5 ring;row ldddl;row ddddd;" + SPREAD, "wide 1;row l;row d;row l;row d;row d;row l;" + SPREAD,
+        "wide 3 ring;row dld;row ddl;row ddd;row ldd;" + SPREAD,
+        "wide 4;row dlnd;row ldwx;row dddd;row dddd;row ldnl;" + SPREAD};
+    private static final String[] ASKED = {"spoils 0 0 1", "unlike 1023", "walks 0", "ancestors", "stills", "heaps 0",
+        "heaps 1", "mirror", "reads 0 1", "worst 1 0", "mend 21 0", "told 4", "again 0", "signal 0 1 1 1", "night 1",
+        "picture", "seen 0 1", "ancestor", "ahead 1"};
     private final Checks checks;
     private String[] ahead = {};
 
@@ -35,18 +49,25 @@ final class Rows {
         ahead = calls;
     }
 
-    /** STATUS 0 and this answer; behind it calls and their answers, "picture = 5"; a call that only asks changes nothing. */
+    /**
+     * STATUS 0 and this answer, behind a refused call; then calls and their answers, "picture = 5". A call that only asks
+     * answers so twice and changes nothing.
+     */
     void gives(String why, String call, long answer, String... then) {
         String[] from = ahead;
         checks.test(named(call, why), () -> {
             WindowHill h = made(from);
+            if (!NO_STATUS.contains(nameOf(call))) {
+                h.told(-1);
+            }
             checks.due("it", run(h, call), answer);
             checks.due("STATUS", h.status(), 0);
             for (String t : then) {
                 int equals = t.lastIndexOf(" = ");
                 checks.due(t, run(h, t.substring(0, equals)), Long.parseLong(t.substring(equals + 3)));
             }
-            if (then.length == 0 && !CHANGES.contains(nameOf(call))) {
+            if (!CHANGES.contains(nameOf(call))) {
+                checks.due("it again", run(h, call), answer);
                 checks.due("all is as it was", everything(h).equals(everything(made(from))), true);
             }
         });
@@ -87,6 +108,17 @@ final class Rows {
         });
     }
 
+    /** What these calls change (they do) is as it was, behind a MARK ahead of them and a back. */
+    void takesBack(String what, String... changes) {
+        String[] from = ahead;
+        checks.test(named("back", what + " from " + changes[changes.length - 1]), () -> {
+            WindowHill h = made(and(and(and(from, "mark"), changes), "back"));
+            String before = everything(made(from));
+            checks.due("it changed", everything(made(and(from, changes))).equals(before), false);
+            checks.due("all is as it was", everything(h).equals(before), true);
+        });
+    }
+
     /** With the number of the promise: they stand as the calls do, behind that of the constructor. */
     private static String named(String call, String why) {
         int promise = 2;
@@ -95,6 +127,15 @@ final class Rows {
         }
         String shown = call.length() > 90 ? call.substring(0, 90) + ".." : call;
         return promise + " " + shown.replaceAll("[^ -~]", "?") + ": " + why;
+    }
+
+    /** Whatever is asked, it answers as a new object with this TOWN does. */
+    static void sameAsNew(Checks checks, WindowHill h, String town) {
+        WindowHill plain = made("town: " + town);
+        for (String call : ASKED) {
+            checks.due(call + " of " + town, run(h, call), run(plain, call));
+            checks.due(call + " of " + town + ": STATUS", h.status(), plain.status());
+        }
     }
 
     private static String nameOf(String call) {

@@ -3,13 +3,14 @@ public final class TextTests {
     private static final Checks C = new Checks();
     private static final Rows R = new Rows(C);
     private static final String PLAIN = "wide 2;row dd;";
-    private static final String MAX = " " + Integer.MAX_VALUE;
-    private static final String MIN = " " + Integer.MIN_VALUE;
+    private static final String MAX = Rows.MAX;
+    private static final String MIN = Rows.MIN;
 
     public static void main(String[] args) {
         C.test("10 town", TextTests::town);
         C.test("10 town is new", TextTests::townIsNew);
         C.test("10 town after town", TextTests::townAfterTown);
+        C.test("10 town after town of another WIDTH", TextTests::townAfterOther);
         C.test("10 town, the largest", TextTests::largestTown);
         C.test("10 town, as many TOKENS as there can be", TextTests::manyTokens);
         townBytes();
@@ -91,6 +92,15 @@ public final class TextTests {
         h.elect();
         h.night(1);
         return h;
+    }
+
+    private static void townAfterOther() {
+        for (String one : Rows.UNLIKE_TOWNS) {
+            for (String other : Rows.UNLIKE_TOWNS) {
+                WindowHill h = Rows.made("town: " + other, "town: " + other, "town: " + one);
+                Rows.sameAsNew(C, h, one);
+            }
+        }
     }
 
     private static void largestTown() {

@@ -2,8 +2,8 @@
 public final class TrayTests {
     private static final Checks C = new Checks();
     private static final Rows R = new Rows(C);
-    private static final String MAX = " " + Integer.MAX_VALUE;
-    private static final String MIN = " " + Integer.MIN_VALUE;
+    private static final String MAX = Rows.MAX;
+    private static final String MIN = Rows.MIN;
 
     public static void main(String[] args) {
         newObject();

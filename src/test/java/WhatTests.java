@@ -2,10 +2,9 @@
 public final class WhatTests {
     private static final Checks C = new Checks();
     private static final Rows R = new Rows(C);
-    private static final String MAX = " " + Integer.MAX_VALUE;
-    private static final String MIN = " " + Integer.MIN_VALUE;
-    /** What is lit stays, and all around it is lit the next night. */
-    private static final String SPREAD = "rule spread born 1 2 3 4 stays 0 1 2 3 4;";
+    private static final String MAX = Rows.MAX;
+    private static final String MIN = Rows.MIN;
+    private static final String SPREAD = Rows.SPREAD;
     private static final String STAYS = "rule keep stays 0 1 2 3 4;";
     private static final String DARK = "town: wide 3;row ddd;row ddd;row ddd;";
     private static final String MIDDLE = "town: wide 3;row ddd;row dld;row ddd;";

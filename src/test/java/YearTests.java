@@ -2,9 +2,9 @@
 public final class YearTests {
     private static final Checks C = new Checks();
     private static final Rows R = new Rows(C);
-    private static final String MAX = " " + Integer.MAX_VALUE;
-    private static final String MIN = " " + Integer.MIN_VALUE;
-    private static final String SPREAD = "rule spread born 1 2 3 4 stays 0 1 2 3 4;";
+    private static final String MAX = Rows.MAX;
+    private static final String MIN = Rows.MIN;
+    private static final String SPREAD = Rows.SPREAD;
     private static final String MIDDLE = "wide 3;row ddd;row dld;row ddd;";
     private static final String DARK = "wide 3;row ddd;row ddd;row ddd;";
     /** 298 STEPS. */
@@ -36,6 +36,7 @@ public final class YearTests {
         mark();
         C.test("60 back", YearTests::back);
         C.test("60 back to the YEAR, the RULES", YearTests::backToAll);
+        backFromEach();
         C.test("60 back to another WIDTH", YearTests::backToOther);
         C.test("60 what is not taken back", YearTests::notTakenBack);
         backRefused();
@@ -213,7 +214,8 @@ public final class YearTests {
         lives("counts each time it is come to from ahead", "wide 1;row d;", "loop 3;loop 99;end;end;", 0, 4, 0, 0, 0, 0, 0);
         lives("three deep without other STEPS", "wide 1;row d;rule a;", "loop 99;loop 99;loop 99;end;end;end;", 0, 300, 0, 0,
             0, 0, 1);
-        lives("in a when that does not hold", "wide 1;row d;", "when lit=1;loop 9;elect;end;end;elect;", 0, 2, 1, 0, 0, 0, 0);
+        lives("in a when that does not hold", "wide 1;row d;", "when lit=1;loop 9;elect;end;end;elect;", 0, 2, 1, 0, 0, 0,
+            0);
     }
 
     private static void stop() {
@@ -356,9 +358,12 @@ public final class YearTests {
         R.on(Rows.TAPED);
         R.gives("the last seed is 9,999", "mean 9980 20", 1, "status = 0");
         R.gives("9,999 alone", "mean 9999 1", 1, "status = 0");
-        // each year by itself, from how all is now
         R.on("town: wide 1;row l;", "year: turn 0 0;");
         R.tells("each from how all is now", "mean 0 2", 0, 1);
+        R.on("town: wide 1;row d;rule a;rule b born 0;", "year: night 1;mayor b;");
+        R.tells("each by the mayor's RULE as it is now", "mean 0 2", 0, 1);
+        R.on("town: wide 1;row d;rule a;rule b born 0;", "mayor 1", "year: night 1;mayor a;");
+        R.tells("each by the mayor's RULE as it is now", "mean 0 3", 1, 1);
         R.on("town: wide 5;row ddddd;row ddddd;row ddddd;row ddddd;row ddddd;row ddddd;rule a born 0;", "year: night 1;");
         R.tells("30", "mean 0 20", 30, 1);
     }
@@ -474,25 +479,35 @@ public final class YearTests {
         C.refused(none, 6, "no YEAR then", () -> none.live(0));
     }
 
-    /** A WIDTH, ROWS and a RING of their own: whatever is asked, it answers as if there had been no other TOWN. */
     private static void backToOther() {
-        String[] towns = {"wide 2;row ld;row dl;row ll;" + SPREAD, "wide 5 ring;row ldddl;row ddddd;" + SPREAD,
-            "wide 1;row l;row d;row l;row d;row d;row l;" + SPREAD};
-        String[] calls = {"spoils 0 0 1", "unlike 1023", "walks 0", "ancestors", "stills", "heaps 0", "heaps 1", "mirror",
-            "reads 0 1", "worst 1 0", "mend 21 0", "night 1", "picture", "signal 0 1 1 1"};
-        for (String one : towns) {
-            for (String other : towns) {
-                WindowHill h = Checks.hill(one);
-                h.mark();
-                Checks.town(h, other);
-                h.night(1);
-                h.back();
-                WindowHill plain = Checks.hill(one);
-                for (String call : calls) {
-                    C.due(call + " of " + one, Rows.run(h, call), Rows.run(plain, call));
-                }
+        for (String one : Rows.UNLIKE_TOWNS) {
+            for (String other : Rows.UNLIKE_TOWNS) {
+                WindowHill h = Rows.made("town: " + one, "mark", "town: " + other, "night 1", "back");
+                Rows.sameAsNew(C, h, one);
             }
         }
+    }
+
+    private static void backFromEach() {
+        String town = "town: wide 3;row ldd;row wdx;rule a born 1 stays 0;rule b born 0 1 2;citizen c likes 9 to 9;";
+        R.on(town, "year: birth;", "mayor 0", "night 2");
+        R.takesBack("the PICTURE", "turn 0 0");
+        R.takesBack("the PICTURE", "paint 63");
+        R.takesBack("PICTURE, NIGHT, OIL, what was SEEN", "night 3");
+        R.takesBack("the mayor", "mayor 1");
+        R.takesBack("BORN", "bend 0 31 1");
+        R.takesBack("STAYS", "bend 0 2 31");
+        R.takesBack("BORN of another", "bend 1 0 0");
+        R.takesBack("what was SEEN", "forget");
+        R.takesBack("the YEAR", "year: night 1;");
+        R.takesBack("the TOWN", "town: wide 1;row d;");
+        R.on(town, "year: birth;", "mayor 1", "night 1");
+        R.takesBack("the mayor, another one", "mayor 0");
+        R.takesBack("the mayor ahead of an ELECTION", "paint 1", "mayor 0", "elect");
+        R.on(town);
+        R.takesBack("no YEAR", "year: night 1;");
+        R.on("town: wide 1;row d;rule a;rule b born 0;citizen c likes 1 to 1;");
+        R.takesBack("the mayor ahead of an ELECTION", "elect");
     }
 
     private static void notTakenBack() {
